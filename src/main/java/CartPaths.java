@@ -848,13 +848,11 @@ public final class CartPaths {
         }
 
         private void skipBlanks() {
-            for (int k = 0; k <= MAX_TEXT && pos < length && isBlank(text[pos]); k++) {
-                pos++;
+            boolean blank = true;
+            for (int k = 0; blank && k <= MAX_TEXT; k++) {
+                blank = pos < length && (text[pos] == 9 || text[pos] == 10 || text[pos] == 32);
+                pos += blank ? 1 : 0;
             }
-        }
-
-        private static boolean isBlank(int octet) {
-            return octet == 9 || octet == 10 || octet == 32;
         }
 
         private void takeWord() {
@@ -1170,7 +1168,7 @@ public final class CartPaths {
         private int lastEnd() {
             int last = 0;
             for (int cart = 0; cart < carts; cart++) {
-                last = Math.max(last, costs[cart]);
+                last = costs[cart] > last ? costs[cart] : last;
             }
             return last;
         }
@@ -1249,16 +1247,6 @@ public final class CartPaths {
             return Math.abs(here % SIDE - there % SIDE) + Math.abs(here / SIDE - there / SIDE);
         }
 
-        private boolean clashes(int lesser, int more, int time, int sort) {
-            int here = TIMES * lesser + time;
-            int there = TIMES * more + time;
-            if (sort == MEET) {
-                return cells[here] == cells[there];
-            }
-            return cells[here] == cells[there - 1] && cells[there] == cells[here - 1]
-                    && cells[here] != cells[there];
-        }
-
         /** Places are all unlike, and so are goals: no clash at time 0, nor when all have ended. */
         private int countClashes() {
             int total = 0;
@@ -1266,13 +1254,21 @@ public final class CartPaths {
             for (int lesser = 0; lesser < carts; lesser++) {
                 for (int more = lesser + 1; more < carts; more++) {
                     for (int time = 1; time <= last; time++) {
-                        if (clashes(lesser, more, time, MEET) || clashes(lesser, more, time, SWAP)) {
-                            total++;
-                        }
+                        total += sortOfClash(lesser, more, time) == NONE ? 0 : 1;
                     }
                 }
             }
             return total;
+        }
+
+        /** At a time from 1 on; NONE: the two do not clash then. */
+        private int sortOfClash(int lesser, int more, int time) {
+            int here = TIMES * lesser + time;
+            int there = TIMES * more + time;
+            if (cells[here] == cells[there]) {
+                return MEET;
+            }
+            return cells[here] == cells[there - 1] && cells[there] == cells[here - 1] ? SWAP : NONE;
         }
 
         private void findFirstClash() {
@@ -1289,7 +1285,7 @@ public final class CartPaths {
         private void findClashAt(int time, int sort) {
             for (int lesser = 0; lesser < carts; lesser++) {
                 for (int more = lesser + 1; more < carts; more++) {
-                    if (clashes(lesser, more, time, sort)) {
+                    if (sortOfClash(lesser, more, time) == sort) {
                         keepClash(time, sort, lesser, more);
                         return;
                     }
