@@ -1516,9 +1516,9 @@ public final class CartPaths {
             return 0;
         }
 
+        /** Ends with the first cart that has no way: its cost tells that the order fails. */
         private void goInOrder(Scene scene, Search search) {
             ways.carts = scene.carts;
-            Arrays.fill(ways.costs, NONE);
             search.clear();
             boolean goes = true;
             for (int k = 0; goes && k < scene.carts; k++) {

@@ -99,6 +99,27 @@ public final class ActsTest {
         }
         CHECK.same("no more than sixteen", paths.undo(), -1);
         CHECK.same("as after the second act", paths.cell(1, 1), 3);
+        CartPaths mixed = Check.of(SCENE);
+        for (int k = 0; k < 20; k++) {
+            switch (k % 3) {
+                case 0:
+                    mixed.tell(1, 1, k % 2 == 0 ? 0 : 2);
+                    break;
+                case 1:
+                    mixed.goal(k % 2, 1, k % 2);
+                    break;
+                default:
+                    mixed.change(0, 1);
+                    break;
+            }
+        }
+        for (int left = 15; left >= 0; left--) {
+            CHECK.same("undo of all sorts", mixed.undo(), left);
+        }
+        // four acts stay: the cell is left up alone, the second goal of a is b's, b's is 7
+        CHECK.same("the fourth act's cell", mixed.cell(1, 1), 2);
+        CHECK.same("b's goal, changed", mixed.cart(0, 1), 7);
+        CHECK.same("a's goal, changed", mixed.cart(1, 1), 2);
     }
 
     private static void answersFollowActs() {

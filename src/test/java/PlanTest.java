@@ -95,6 +95,11 @@ public final class PlanTest {
         CartPaths third = Check.of("row #..;row ...;cart a at 0 1 to 1 0;cart b at 1 0 to 1 1;");
         CHECK.same("5 by 3", third.worse(10), Float.floatToIntBits(5.0f / 3.0f));
         CHECK.same("6 by 3", third.worse(15), Float.floatToIntBits(2.0f));
+        CartPaths more = Check.of("row #..;row ..^;cart a at 2 0 to 2 0;cart b at 2 1 to 1 1;");
+        CHECK.same("sum 7", more.plan(10, 0), 7);
+        CHECK.same("7 by 3", more.worse(10), Float.floatToIntBits(7.0f / 3.0f));
+        CHECK.same("8 by 2", Check.of("row #.#.##;row ......;cart a at 3 1 to 1 1;cart b at 2 1 to 2 1;").worse(10),
+                Float.floatToIntBits(4.0f));
     }
 
     private static void who() {
@@ -236,9 +241,11 @@ public final class PlanTest {
         for (int bad : new int[] {-1, 2, 3, Integer.MIN_VALUE, Integer.MAX_VALUE}) {
             CHECK.noPlace("at's cart", () -> paths.at(9, bad, 99));
             CHECK.noPlace("move's cart", () -> paths.move(9, bad, 99));
-            CHECK.noPlace("near's cart", () -> paths.near(9, bad, bad, false));
+            CHECK.noPlace("near's cart", () -> paths.near(9, bad, 0, false));
+            CHECK.noPlace("near's carts", () -> paths.near(9, bad, bad, false));
             CHECK.noPlace("near's other", () -> paths.near(9, 0, bad, false));
-            CHECK.noPlace("follows's cart", () -> paths.follows(9, bad, bad));
+            CHECK.noPlace("follows's cart", () -> paths.follows(9, bad, 0));
+            CHECK.noPlace("follows's carts", () -> paths.follows(9, bad, bad));
             CHECK.noPlace("follows's other", () -> paths.follows(9, 0, bad));
             CHECK.noPlace("way's cart", () -> paths.way(9, bad, 9));
         }

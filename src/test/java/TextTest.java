@@ -57,6 +57,19 @@ public final class TextTest {
         CHECK.same("read of row ...;", paths.read(), 0);
         CHECK.same("the tape is used up", paths.end(1) ? 1 : 0, 0);
         CHECK.same("columns", paths.count(0), 3);
+        // what stood behind the end is no part of the text
+        String whole = "row ...;row ...;cart ab at 0 0 to 12;";
+        for (int end = 0; end < whole.length(); end++) {
+            Check.feed(paths, whole);
+            paths.end(end);
+            int due = new Oracle().parse(whole.substring(0, end));
+            if (due < 0) {
+                CHECK.same("read up to " + end, paths.read(), 0);
+            } else {
+                CHECK.noNumber("read up to " + end, paths::read);
+            }
+            CHECK.same("fault up to " + end, paths.fault(), due);
+        }
     }
 
     private static void readTellsTheScene() {
