@@ -6,18 +6,56 @@ final class Check {
     }
 
     private final String title;
+    private final Document document;
+    private String sentence = "";
     private int wrong = 0;
     private int looked = 0;
 
     Check(String title) {
+        this(title, null);
+    }
+
+    /** For tests that quote the document's sentences. */
+    Check(String title, Document document) {
         this.title = title;
+        this.document = document;
     }
 
     void same(String what, long got, long due) {
         looked++;
         if (got != due) {
-            wrong++;
-            System.out.println(title + ": " + what + " answered " + got + ", due is " + due);
+            tell(what + " answered " + got + ", due is " + due);
+        }
+    }
+
+    private void tell(String fault) {
+        wrong++;
+        System.out.println(title + ": " + sentence + fault);
+    }
+
+    /** What follows looks at these words of the document's terms. */
+    void terms(String quote) {
+        quote(Document.TERMS, quote);
+    }
+
+    /** What follows looks at these words of a promise. */
+    void promise(int number, String quote) {
+        quote(Integer.toString(number), quote);
+    }
+
+    private void quote(String section, String quote) {
+        looked++;
+        sentence = section + " \"" + quote + "\": ";
+        if (!document.quote(section, quote)) {
+            tell("these are not the document's words");
+        }
+    }
+
+    void allQuoted() {
+        sentence = "";
+        same("sections of the document", document.sections(), 45);
+        for (String piece : document.unquoted()) {
+            tell("no test quotes " + piece);
         }
     }
 
@@ -32,8 +70,19 @@ final class Check {
             }
             got = e.getClass().getSimpleName();
         }
-        wrong++;
-        System.out.println(title + ": " + what + " gave " + got + ", due is " + due.getSimpleName());
+        tell(what + " gave " + got + ", due is " + due.getSimpleName());
+    }
+
+    /** Reads a text with a new object: it is refused if there is a fault. */
+    void fault(String text, int due) {
+        CartPaths paths = new CartPaths();
+        feed(paths, text);
+        if (due >= 0) {
+            noNumber("read of " + text, paths::read);
+        } else {
+            paths.read();
+        }
+        same("fault of " + text, paths.fault(), due);
     }
 
     void noPlace(String what, Call call) {

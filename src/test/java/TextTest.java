@@ -139,96 +139,85 @@ public final class TextTest {
         CHECK.same("turns anew", paths.byTurns(0), 1);
     }
 
-    private static void fault(String text, int due) {
-        CartPaths paths = new CartPaths();
-        Check.feed(paths, text);
-        if (due < 0) {
-            paths.read();
-        } else {
-            CHECK.noNumber("read of " + text, paths::read);
-        }
-        CHECK.same("fault of " + text, paths.fault(), due);
-    }
-
     private static void goodTexts() {
-        fault("row .;", -1);
-        fault(" row\t.\n;  ", -1);
-        fault("row v;", -1);
-        fault("row .v.;row v..;", -1);
-        fault("row......;", -1);
-        fault("row .;row .;row .;row .;row .;row .;", -1);
-        fault("row .....;cart a at0 0to 0 0;cart b at 1 0 to 1 0;cart c at 2 0 to 2 0;"
+        CHECK.fault("row .;", -1);
+        CHECK.fault(" row\t.\n;  ", -1);
+        CHECK.fault("row v;", -1);
+        CHECK.fault("row .v.;row v..;", -1);
+        CHECK.fault("row......;", -1);
+        CHECK.fault("row .;row .;row .;row .;row .;row .;", -1);
+        CHECK.fault("row .....;cart a at0 0to 0 0;cart b at 1 0 to 1 0;cart c at 2 0 to 2 0;"
                 + "cart d at 3 0 to 3 0;cart e at 4 0 to 4 0;", -1);
-        fault("row ..;cart rowx at 0 0 to 0 0;cart abcdef at 1 0 to 1 0;", -1);
-        fault("row ..;cart a at 0 0 to 1 0;cart b at 1 0 to 0 0;", -1);
-        fault("row ..;cart\na\nat\n0\n0\nto\n1\n0\n;", -1);
+        CHECK.fault("row ..;cart rowx at 0 0 to 0 0;cart abcdef at 1 0 to 1 0;", -1);
+        CHECK.fault("row ..;cart a at 0 0 to 1 0;cart b at 1 0 to 0 0;", -1);
+        CHECK.fault("row ..;cart\na\nat\n0\n0\nto\n1\n0\n;", -1);
     }
 
     private static void faultsOfRows() {
-        fault("rows ...;", 0);
-        fault("rowv..;", 0);
-        fault("Row ...;", 0);
-        fault("row .......;", 4);
-        fault("row ...;row ..;", 12);
-        fault("row ...;row ....;", 12);
-        fault("row ...; ;", 9);
-        fault("row ;", 4);
-        fault("row x;", 4);
-        fault("row ..x;", 6);
-        fault("row .. ..;", 7);
-        fault("row ..,", 6);
-        fault("row .;row .;row .;row .;row .;row .;row .;", 36);
-        fault("row ...;cart a at 0 0 to 1 0;row ...;", 29);
-        fault("row .;\r", 6);
+        CHECK.fault("rows ...;", 0);
+        CHECK.fault("rowv..;", 0);
+        CHECK.fault("Row ...;", 0);
+        CHECK.fault("row .......;", 4);
+        CHECK.fault("row ...;row ..;", 12);
+        CHECK.fault("row ...;row ....;", 12);
+        CHECK.fault("row ...; ;", 9);
+        CHECK.fault("row ;", 4);
+        CHECK.fault("row x;", 4);
+        CHECK.fault("row ..x;", 6);
+        CHECK.fault("row .. ..;", 7);
+        CHECK.fault("row ..,", 6);
+        CHECK.fault("row .;row .;row .;row .;row .;row .;row .;", 36);
+        CHECK.fault("row ...;cart a at 0 0 to 1 0;row ...;", 29);
+        CHECK.fault("row .;\r", 6);
     }
 
     private static void faultsOfCarts() {
-        fault("cart a at 0 0 to 0 0;", 0);
-        fault("row ..;carts a at 0 0 to 0 0;", 7);
-        fault("row ..;cart row at 0 0 to 0 0;", 12);
-        fault("row ..;cart cart at 0 0 to 0 0;", 12);
-        fault("row ..;cart at at 0 0 to 0 0;", 12);
-        fault("row ..;cart to at 0 0 to 0 0;", 12);
-        fault("row ..;cart abcdefg at 0 0 to 0 0;", 12);
-        fault("row ..;cart 1 at 0 0 to 0 0;", 12);
-        fault("row ..;cart A at 0 0 to 0 0;", 12);
-        fault("row ..;cart a ta 0 0 to 0 0;", 14);
-        fault("row ..;cart a at 0 0 ot 0 0;", 21);
-        fault("row ..;cart a at 0 0 0 0;", 21);
-        fault("row ..;cart a at 0 0 to 0 0 0;", 28);
-        fault("row ..;cart ab at 0 0 to 0 0;cart ab at 1 0 to 1 0;", 34);
-        fault("row ......;cart a at 0 0 to 0 0;cart b at 1 0 to 1 0;cart c at 2 0 to 2 0;"
+        CHECK.fault("cart a at 0 0 to 0 0;", 0);
+        CHECK.fault("row ..;carts a at 0 0 to 0 0;", 7);
+        CHECK.fault("row ..;cart row at 0 0 to 0 0;", 12);
+        CHECK.fault("row ..;cart cart at 0 0 to 0 0;", 12);
+        CHECK.fault("row ..;cart at at 0 0 to 0 0;", 12);
+        CHECK.fault("row ..;cart to at 0 0 to 0 0;", 12);
+        CHECK.fault("row ..;cart abcdefg at 0 0 to 0 0;", 12);
+        CHECK.fault("row ..;cart 1 at 0 0 to 0 0;", 12);
+        CHECK.fault("row ..;cart A at 0 0 to 0 0;", 12);
+        CHECK.fault("row ..;cart a ta 0 0 to 0 0;", 14);
+        CHECK.fault("row ..;cart a at 0 0 ot 0 0;", 21);
+        CHECK.fault("row ..;cart a at 0 0 0 0;", 21);
+        CHECK.fault("row ..;cart a at 0 0 to 0 0 0;", 28);
+        CHECK.fault("row ..;cart ab at 0 0 to 0 0;cart ab at 1 0 to 1 0;", 34);
+        CHECK.fault("row ......;cart a at 0 0 to 0 0;cart b at 1 0 to 1 0;cart c at 2 0 to 2 0;"
                 + "cart d at 3 0 to 3 0;cart e at 4 0 to 4 0;cart f at 5 0 to 5 0;", 116);
     }
 
     private static void faultsOfPlaces() {
-        fault("row ..;cart a at 2 0 to 0 0;", 17);
-        fault("row ..;cart a at 0 1 to 0 0;", 19);
-        fault("row ..;cart a at 0 0 to 2 0;", 24);
-        fault("row ..;cart a at 0 0 to 0 1;", 26);
-        fault("row ..;cart a at 00 0 to 0 0;", 17);
-        fault("row ..;cart a at 0 00 to 0 0;", 19);
-        fault("row ..;cart a at 01 to 0 0;", 17);
-        fault("row ..;cart a at -1 0 to 0 0;", 17);
-        fault("row .#;cart a at 1 0 to 0 0;", 19);
-        fault("row .#;cart a at 0 0 to 1  0;", 27);
-        fault("row ...;cart a at 0 0 to 1 0;cart b at 0 0 to 2 0;", 41);
-        fault("row ...;cart a at 0 0 to 1 0;cart b at 2 0 to 1 0;", 48);
+        CHECK.fault("row ..;cart a at 2 0 to 0 0;", 17);
+        CHECK.fault("row ..;cart a at 0 1 to 0 0;", 19);
+        CHECK.fault("row ..;cart a at 0 0 to 2 0;", 24);
+        CHECK.fault("row ..;cart a at 0 0 to 0 1;", 26);
+        CHECK.fault("row ..;cart a at 00 0 to 0 0;", 17);
+        CHECK.fault("row ..;cart a at 0 00 to 0 0;", 19);
+        CHECK.fault("row ..;cart a at 01 to 0 0;", 17);
+        CHECK.fault("row ..;cart a at -1 0 to 0 0;", 17);
+        CHECK.fault("row .#;cart a at 1 0 to 0 0;", 19);
+        CHECK.fault("row .#;cart a at 0 0 to 1  0;", 27);
+        CHECK.fault("row ...;cart a at 0 0 to 1 0;cart b at 0 0 to 2 0;", 41);
+        CHECK.fault("row ...;cart a at 0 0 to 1 0;cart b at 2 0 to 1 0;", 48);
     }
 
     private static void faultsAtTheEnd() {
-        fault("", 0);
-        fault("   ", 3);
-        fault("row", 3);
-        fault("row ", 4);
-        fault("row ...", 7);
-        fault("row ...  ", 9);
-        fault("row ..;cart", 11);
-        fault("row ..;cart a", 13);
-        fault("row ..;cart a at", 16);
-        fault("row ..;cart a at 0 ", 19);
-        fault("row ..;cart a at 0 0", 20);
-        fault("row ..;cart a at 0 0 to 0 0 ", 28);
+        CHECK.fault("", 0);
+        CHECK.fault("   ", 3);
+        CHECK.fault("row", 3);
+        CHECK.fault("row ", 4);
+        CHECK.fault("row ...", 7);
+        CHECK.fault("row ...  ", 9);
+        CHECK.fault("row ..;cart", 11);
+        CHECK.fault("row ..;cart a", 13);
+        CHECK.fault("row ..;cart a at", 16);
+        CHECK.fault("row ..;cart a at 0 ", 19);
+        CHECK.fault("row ..;cart a at 0 0", 20);
+        CHECK.fault("row ..;cart a at 0 0 to 0 0 ", 28);
     }
 
     /** Good texts with some signs changed, left out or put in, against the plain second reading. */
@@ -255,7 +244,7 @@ public final class TextTest {
                         break;
                 }
             }
-            fault(text.toString(), new Oracle().parse(text.toString()));
+            CHECK.fault(text.toString(), new Oracle().parse(text.toString()));
         }
     }
 }
