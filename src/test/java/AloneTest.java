@@ -1,7 +1,5 @@
 /** Promises 13 to 17: carts alone, their clashes, what they reach. */
 public final class AloneTest {
-    /** One way through all cells. */
-    private static final String SNAKE = "row >>>>>v;row v<<<<<;row >>>>>v;row v<<<<<;row >>>>>v;row .<<<<<;";
     private static final Check CHECK = new Check("alone");
 
     public static void main(String[] args) {
@@ -60,7 +58,7 @@ public final class AloneTest {
         CHECK.noState("clash", () -> paths.clash(0));
         CHECK.noState("clash 4", () -> paths.clash(4));
         CHECK.same("no sum", paths.count(7), -1);
-        CHECK.same("the longest way", Check.of(SNAKE + "cart a at 0 0 to 0 5;").cost(0), 35);
+        CHECK.same("the longest way", Check.of(Scenes.SNAKE + "cart a at 0 0 to 0 5;").cost(0), 35);
     }
 
     private static void clash(CartPaths paths, int... due) {
@@ -125,6 +123,6 @@ public final class AloneTest {
         CHECK.noPlace("no cell from", () -> paths.far(5, 0, 0, 0));
         CHECK.noPlace("no cell to", () -> paths.far(0, 0, 0, 3));
         CHECK.noPlace("no cell below 0", () -> paths.far(0, 0, -1, 0));
-        CHECK.same("far through all cells", Check.of(SNAKE).far(0, 0, 0, 5), 35);
+        CHECK.same("far through all cells", Check.of(Scenes.SNAKE).far(0, 0, 0, 5), 35);
     }
 }

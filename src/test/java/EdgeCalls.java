@@ -13,11 +13,6 @@ final class EdgeCalls {
         int ask(CartPaths paths, int bound);
     }
 
-    private static final String CROSSING =
-            "row #.#;row ...;row #.#;cart a at 0 1 to 2 1;cart b at 1 0 to 1 2;";
-    private static final String NO_NODE = "row ..#.;cart a at 0 0 to 3 0;cart b at 3 0 to 0 0;";
-    private static final String NONE_WAITS = "row .>>;cart a at 0 0 to 2 0;cart b at 1 0 to 1 0;";
-    private static final String CUT = "row ...;cart a at 0 0 to 2 0;cart b at 2 0 to 0 0;";
     private static final int MIN = Integer.MIN_VALUE;
     private static final int MAX = Integer.MAX_VALUE;
 
@@ -44,14 +39,14 @@ final class EdgeCalls {
     /** A bound is refused below 10 and above 30; without a plan there is no answer, be there no node or a cut. */
     private void bound(int promise, String number, String state, ByBound call) {
         check.promise(promise, number);
-        CartPaths paths = Check.of(CROSSING);
+        CartPaths paths = Check.of(Scenes.CROSSING);
         for (int bound : new int[] {9, 31, 0, -1, MIN, MAX}) {
             check.noNumber("bound " + bound, () -> call.ask(paths, bound));
         }
         check.same("bounds 10 and 30 answer the same", call.ask(paths, 10), call.ask(paths, 30));
         if (state != null) {
             check.promise(promise, state);
-            for (String text : new String[] {NO_NODE, NONE_WAITS, CUT}) {
+            for (String text : new String[] {Scenes.NO_NODE, Scenes.NONE_WAITS, Scenes.CUT}) {
                 CartPaths none = Check.of(text);
                 check.noState(text, () -> call.ask(none, 10));
                 check.noState(text, () -> call.ask(none, 30));
@@ -118,7 +113,7 @@ final class EdgeCalls {
     }
 
     private void noSuchCart() {
-        CartPaths paths = Check.of(CROSSING);
+        CartPaths paths = Check.of(Scenes.CROSSING);
         for (int cart : new int[] {-1, 2, 5, MIN, MAX}) {
             check.noPlace("cart", () -> paths.cart(cart, 0));
             check.noPlace("name", () -> paths.name(cart, 0));
@@ -148,7 +143,7 @@ final class EdgeCalls {
 
     private void noSuchElement() {
         check.terms("NoSuchElementException: there is none such, another what.");
-        CartPaths paths = Check.of(CROSSING);
+        CartPaths paths = Check.of(Scenes.CROSSING);
         for (int what : new int[] {-1, 6, MIN, MAX}) {
             check.noElement("cart", () -> paths.cart(0, what));
             check.noElement("clash", () -> paths.clash(what));
@@ -165,11 +160,11 @@ final class EdgeCalls {
 
     private void cannotBe() {
         check.terms("IllegalStateException: it cannot be.");
-        CartPaths paths = Check.of(CROSSING);
+        CartPaths paths = Check.of(Scenes.CROSSING);
         check.noState("a wall on a place", () -> paths.tell(0, 1, 1));
         check.noState("a goal on a wall", () -> paths.goal(0, 0, 0));
         check.noState("another one's goal", () -> paths.goal(0, 1, 2));
-        CartPaths none = Check.of(NO_NODE);
+        CartPaths none = Check.of(Scenes.NO_NODE);
         check.noState("no way", () -> none.clash(0));
         check.noState("no plan", () -> none.at(10, 0, 0));
         check.noState("the order fails", () -> none.turned(0, 0, 0));
@@ -178,7 +173,7 @@ final class EdgeCalls {
     /** Calls in which several things are wrong: the exception that the document tells first. */
     private void whichIsFirst() {
         check.terms("Of several exceptions the one told first is thrown;");
-        CartPaths none = Check.of(NO_NODE);
+        CartPaths none = Check.of(Scenes.NO_NODE);
         check.noPlace("cart, then what", () -> none.cart(2, 9));
         check.noPlace("tell: cell, then sort", () -> none.tell(4, 0, 9));
         check.noNumber("tell: sort, then state", () -> none.tell(0, 0, 6));
@@ -199,7 +194,7 @@ final class EdgeCalls {
     }
 
     private void firstOfPlans() {
-        CartPaths none = Check.of(NO_NODE);
+        CartPaths none = Check.of(Scenes.NO_NODE);
         check.noNumber("plan: bound, then what", () -> none.plan(31, 6));
         check.noElement("plan: what", () -> none.plan(30, 6));
         check.noNumber("node: bound, then node and what", () -> none.node(31, 0, 6));
@@ -222,7 +217,7 @@ final class EdgeCalls {
         check.noNumber("ended: time, then state", () -> none.ended(10, 41));
         check.noNumber("again: time, then state", () -> none.again(10, 41));
         check.noNumber("write: time, then state", () -> none.write(10, 41));
-        CartPaths paths = Check.of(CROSSING);
+        CartPaths paths = Check.of(Scenes.CROSSING);
         check.noElement("way: what at last", () -> paths.way(10, 1, 5));
         check.noNumber("without: bound, then a wall", () -> paths.without(9, 0, 0));
     }
@@ -286,7 +281,7 @@ final class EdgeCalls {
         try {
             paths.read();
         } catch (IllegalArgumentException e) {
-            Check.feed(paths, CROSSING);
+            Check.feed(paths, Scenes.CROSSING);
         }
         paths.read();
         paths.write(10, 1);

@@ -1,16 +1,9 @@
+import java.util.List;
+
 /** What is told of a plan, sentence by sentence, but for stops: promises 20 to 24, 26 to 31 and 34 to 37. */
 final class EdgePlan {
-    /** By its plan a waits once for b: a is in 6, 6, 7, 8, b in 1, 7, 13. */
-    private static final String CROSSING =
-            "row #.#;row ...;row #.#;cart a at 0 1 to 2 1;cart b at 1 0 to 1 2;";
-    /** By its plan a is in 0, 1, 2, b in 1, 7, 1. */
-    private static final String BAY = "row ...;row #.#;cart a at 0 0 to 2 0;cart b at 1 0 to 1 0;";
     /** By its plan a is in 0, 1, 2, b in 1, 7, 1, 0: it leaves cell 1 twice. */
     private static final String TWICE = "row ...;row #.#;cart a at 0 0 to 2 0;cart b at 1 0 to 0 0;";
-    /** By 10 a is in 6, 7, 1, by 15 in 6, 6, 7, 1; b is in 1, 2, 8, 7. */
-    private static final String LOOSE = "row #..;row ...;cart a at 0 1 to 1 0;cart b at 1 0 to 1 1;";
-    private static final String RING = "row ..;row ..;cart a at 0 0 to 1 0;cart b at 1 0 to 1 1;"
-            + "cart c at 1 1 to 0 1;cart d at 0 1 to 0 0;";
 
     /** By 20 a goes round and round till b has left its way, and ends at the last time, in 30, coming from 31. */
     private static final String LAST_TIME = "row >>>>>v;row v<<<<<;row >>>>>.;row v<<<<<;row >>>>>.;row ><<<<.;"
@@ -53,7 +46,7 @@ final class EdgePlan {
 
     private void at() {
         check.promise(20, "The CELL of a CART at a TIME by a PLAN.");
-        CartPaths paths = Check.of(LOOSE);
+        CartPaths paths = Check.of(Scenes.LOOSE);
         int[] by10 = {6, 7, 1, 1};
         int[] by15 = {6, 6, 7, 1};
         for (int time = 0; time <= 40; time++) {
@@ -65,7 +58,7 @@ final class EdgePlan {
 
     private void move() {
         check.promise(21, "The MOVE of a CART from a TIME (0 to 39) on by a PLAN.");
-        CartPaths paths = Check.of(CROSSING);
+        CartPaths paths = Check.of(Scenes.CROSSING);
         int[] moves = {4, 1, 1, 4};
         for (int time = 0; time <= 39; time++) {
             check.same("from " + time, paths.move(10, 0, time), moves[Math.min(time, 3)]);
@@ -76,7 +69,7 @@ final class EdgePlan {
         }
         int[] round = {1, 2, 3, 0};
         for (int cart = 0; cart < 4; cart++) {
-            check.same("round", Check.of(RING).move(10, cart, 0), round[cart]);
+            check.same("round", Check.of(Scenes.RING).move(10, cart, 0), round[cart]);
         }
     }
 
@@ -89,7 +82,7 @@ final class EdgePlan {
         check.same("the first place, where b comes", twice.used(10, 0, 0, false), 2);
         check.same("which a leaves", twice.used(10, 0, 0, true), 1);
         check.promise(22, "USED (next false), NEXT (true) of a CELL by a PLAN.");
-        CartPaths paths = Check.of(CROSSING);
+        CartPaths paths = Check.of(Scenes.CROSSING);
         check.same("a's place, where it waits", paths.used(10, 0, 1, false), 1);
         check.same("it leaves it once", paths.used(10, 0, 1, true), 1);
         check.same("a goal", paths.used(10, 2, 1, false), 1);
@@ -101,7 +94,7 @@ final class EdgePlan {
 
     private void busiest() {
         check.promise(23, "The CELL that is USED the most by a PLAN; of several the least number (NONE: no CARTS).");
-        check.same("the crossing", Check.of(CROSSING).busiest(10), 7);
+        check.same("the crossing", Check.of(Scenes.CROSSING).busiest(10), 7);
         check.same("of two the least", Check.of(TWICE).busiest(10), 0);
         check.same("of all the least", Check.of("row ...;row ...;cart a at 2 1 to 1 1;").busiest(10), 7);
         check.same("one that stays", Check.of("row ...;row ...;cart a at 2 1 to 2 1;").busiest(10), 8);
@@ -110,10 +103,10 @@ final class EdgePlan {
 
     private void waits() {
         check.promise(24, "How many times CARTS stay where they are (MOVE 4) by a PLAN ahead of ENDING, together.");
-        check.same("once", Check.of(CROSSING).waits(10), 1);
-        check.same("never, though b ends late", Check.of(BAY).waits(10), 0);
-        check.same("by 10 never", Check.of(LOOSE).waits(10), 0);
-        check.same("by 15 once", Check.of(LOOSE).waits(15), 1);
+        check.same("once", Check.of(Scenes.CROSSING).waits(10), 1);
+        check.same("never, though b ends late", Check.of(Scenes.BAY).waits(10), 0);
+        check.same("by 10 never", Check.of(Scenes.LOOSE).waits(10), 0);
+        check.same("by 15 once", Check.of(Scenes.LOOSE).waits(15), 1);
         check.same("one that has ended", Check.of("row ..;row ..;cart a at 0 0 to 0 0;cart b at 0 1 to 1 1;").waits(10), 0);
         check.same("two wait", Check.of("row #.#;row ...;row #.#;row #.#;row ...;row #.#;cart a at 0 1 to 2 1;"
                 + "cart b at 1 0 to 1 2;cart c at 0 4 to 2 4;cart d at 1 3 to 1 5;").waits(10), 2);
@@ -122,12 +115,12 @@ final class EdgePlan {
 
     private void worse() {
         check.promise(26, "Bits of a float: the SUM of a PLAN parted by that of all CARTS ALONE (1.0 if that is 0).");
-        check.same("5 by 4", Check.of(CROSSING).worse(10), Float.floatToIntBits(1.25f));
-        check.same("4 by 2", Check.of(BAY).worse(10), Float.floatToIntBits(2.0f));
-        check.same("5 by 3", Check.of(LOOSE).worse(10), Float.floatToIntBits(5.0f / 3.0f));
-        check.same("6 by 3", Check.of(LOOSE).worse(15), Float.floatToIntBits(2.0f));
+        check.same("5 by 4", Check.of(Scenes.CROSSING).worse(10), Float.floatToIntBits(1.25f));
+        check.same("4 by 2", Check.of(Scenes.BAY).worse(10), Float.floatToIntBits(2.0f));
+        check.same("5 by 3", Check.of(Scenes.LOOSE).worse(10), Float.floatToIntBits(5.0f / 3.0f));
+        check.same("6 by 3", Check.of(Scenes.LOOSE).worse(15), Float.floatToIntBits(2.0f));
         check.same("5 by 3 once more", Check.of(TWICE).worse(10), Float.floatToIntBits(5.0f / 3.0f));
-        check.same("equal", Check.of(RING).worse(10), Float.floatToIntBits(1.0f));
+        check.same("equal", Check.of(Scenes.RING).worse(10), Float.floatToIntBits(1.0f));
         check.same("alone 0", Check.of("row .;cart a at 0 0 to 0 0;").worse(10), Float.floatToIntBits(1.0f));
         check.same("no carts", noCarts().worse(10), Float.floatToIntBits(1.0f));
         // the next float above
@@ -141,15 +134,15 @@ final class EdgePlan {
 
     private void who() {
         check.promise(27, "Which CART is in a CELL at a TIME by a PLAN; NONE: none.");
-        CartPaths paths = Check.of(CROSSING);
+        CartPaths paths = Check.of(Scenes.CROSSING);
         int[] due = {-1, 1, 0, -1};
         for (int time = 0; time <= 40; time++) {
             check.same("at " + time, paths.who(10, 1, 1, time), due[Math.min(time, 3)]);
         }
         check.same("a wall", paths.who(10, 0, 0, 0), -1);
         check.same("no carts", noCarts().who(10, 0, 0, 0), -1);
-        check.same("by 15 a still waits", Check.of(LOOSE).who(15, 0, 1, 1), 0);
-        check.same("by 10 it does not", Check.of(LOOSE).who(10, 0, 1, 1), -1);
+        check.same("by 15 a still waits", Check.of(Scenes.LOOSE).who(15, 0, 1, 1), 0);
+        check.same("by 10 it does not", Check.of(Scenes.LOOSE).who(10, 0, 1, 1), -1);
     }
 
     private void near() {
@@ -159,11 +152,11 @@ final class EdgePlan {
         check.same("five and two, then three and two", paths.near(10, 0, 1, false), 5);
         check.same("at 2", paths.near(10, 0, 1, true), 2);
         check.same("the other way round", paths.near(10, 1, 0, false), 5);
-        CartPaths still = Check.of("row ..;cart a at 0 0 to 0 0;cart b at 1 0 to 1 0;");
+        CartPaths still = Check.of(Scenes.STILL);
         check.same("always one apart", still.near(10, 0, 1, false), 1);
         check.same("first at 0", still.near(10, 0, 1, true), 0);
         // nearest at 1 and at 2: the first counts
-        check.same("first of two", Check.of(CROSSING).near(10, 1, 0, true), 1);
+        check.same("first of two", Check.of(Scenes.CROSSING).near(10, 1, 0, true), 1);
         check.same("rows", Check.of("row .;row .;row .;cart a at 0 0 to 0 0;cart b at 0 2 to 0 2;")
                 .near(10, 0, 1, false), 2);
         check.promise(28, "IllegalArgumentException: the BOUND is none, both are one;");
@@ -179,16 +172,16 @@ final class EdgePlan {
         one.tell(1, 0, 3);
         check.same("a cell left one way", one.without(10, 1, 0), 2);
         // b goes aside to 8 then, and a waits for that
-        check.same("one more", Check.of(LOOSE).without(10, 2, 0), 1);
+        check.same("one more", Check.of(Scenes.LOOSE).without(10, 2, 0), 1);
         CartPaths less = Check.of("row ..>..>;row ......;cart a at 5 1 to 0 0;cart b at 0 1 to 1 1;");
         check.same("less by a loose bound", less.without(15, 2, 0), -4);
         check.promise(29, "NONE: there would be no PLAN, or it would be CUT (nothing stays).");
-        CartPaths paths = Check.of(CROSSING);
+        CartPaths paths = Check.of(Scenes.CROSSING);
         check.same("no way any more", paths.without(10, 1, 1), -1);
         check.same("cell stays", paths.cell(1, 1), 0);
         check.same("plan stays", paths.plan(10, 0), 5);
         check.same("no act", paths.undo(), -1);
-        check.same("cut", Check.of(BAY).without(10, 1, 1), -1);
+        check.same("cut", Check.of(Scenes.BAY).without(10, 1, 1), -1);
         // a goes round b, which cannot come back if it leaves its goal; else no node waits in the end
         CartPaths round = Check.of("row .>>;row ...;cart a at 0 0 to 2 0;cart b at 1 0 to 1 0;");
         check.same("round b", round.plan(10, 0), 4);
@@ -200,7 +193,7 @@ final class EdgePlan {
 
     private void withoutWrongCells() {
         check.promise(29, "IllegalStateException: it is a WALL, a PLACE, a GOAL,");
-        CartPaths paths = Check.of(CROSSING);
+        CartPaths paths = Check.of(Scenes.CROSSING);
         check.noState("a wall", () -> paths.without(10, 0, 0));
         for (int cell : new int[] {6, 8, 1, 13}) {
             check.noState("a place or a goal", () -> paths.without(10, cell % 6, cell / 6));
@@ -219,7 +212,7 @@ final class EdgePlan {
     private void follows() {
         check.promise(30, "How many times a CART comes into the CELL that another one leaves by that MOVE of its own, "
                 + "by a PLAN.");
-        CartPaths bay = Check.of(BAY);
+        CartPaths bay = Check.of(Scenes.BAY);
         check.same("a comes as b leaves", bay.follows(10, 0, 1), 1);
         check.same("b comes back as a leaves", bay.follows(10, 1, 0), 1);
         CartPaths row = Check.of("row ......;cart a at 0 0 to 4 0;cart b at 1 0 to 5 0;");
@@ -227,12 +220,12 @@ final class EdgePlan {
         check.same("the one ahead never", row.follows(10, 1, 0), 0);
         CartPaths later = Check.of("row ......;cart a at 0 0 to 3 0;cart b at 2 0 to 5 0;");
         check.same("a time later is none", later.follows(10, 0, 1), 0);
-        CartPaths ring = Check.of(RING);
+        CartPaths ring = Check.of(Scenes.RING);
         check.same("the next one", ring.follows(10, 0, 1), 1);
         check.same("the one across", ring.follows(10, 0, 2), 0);
         check.same("the one behind", ring.follows(10, 0, 3), 0);
         check.same("the last one the first", ring.follows(10, 3, 0), 1);
-        check.same("still ones", Check.of("row ..;cart a at 0 0 to 0 0;cart b at 1 0 to 1 0;").follows(10, 0, 1), 0);
+        check.same("still ones", Check.of(Scenes.STILL).follows(10, 0, 1), 0);
         check.promise(30, "IllegalArgumentException: the BOUND is none, both are one;");
         check.noNumber("a and a", () -> bay.follows(10, 0, 0));
         check.noNumber("b and b", () -> bay.follows(10, 1, 1));
@@ -253,7 +246,7 @@ final class EdgePlan {
         CartPaths three = Check.of("row ......;cart a at 0 0 to 3 0;cart b at 1 0 to 4 0;cart c at 2 0 to 5 0;");
         check.same("by two or three", three.shared(10, -1), 4);
         check.same("the last one", three.shared(10, 3), 4);
-        CartPaths none = Check.of("row ..;cart a at 0 0 to 0 0;cart b at 1 0 to 1 0;");
+        CartPaths none = Check.of(Scenes.STILL);
         check.same("none", none.shared(10, -1), 0);
         check.same("no first one", none.shared(10, 0), -1);
     }
@@ -262,9 +255,9 @@ final class EdgePlan {
         check.promise(34, "Which CARTS have ENDED by a TIME of a PLAN (bits).");
         int[] due = {0, 0, 2, 3};
         for (int time = 0; time <= 40; time++) {
-            check.same("at " + time, Check.of(CROSSING).ended(10, time), due[Math.min(time, 3)]);
+            check.same("at " + time, Check.of(Scenes.CROSSING).ended(10, time), due[Math.min(time, 3)]);
         }
-        CartPaths bay = Check.of(BAY);
+        CartPaths bay = Check.of(Scenes.BAY);
         check.same("on its goal, but not for ever", bay.ended(10, 0), 0);
         check.same("then for ever", bay.ended(10, 2), 3);
         check.same("all five", Check.of("row .....;cart a at 0 0 to 0 0;cart b at 1 0 to 1 0;"
@@ -278,7 +271,7 @@ final class EdgePlan {
                 + "4 the TIME at which it is on its GOAL first.");
         int[][] due = {{3, 1, 3, 2, 3}, {2, 0, 3, 2, 2}, {2, 0, 3, 2, 2}, {2, 2, 2, 2, 0}, {2, 0, 3, 2, 2},
             {3, 2, 3, 3, 3}};
-        String[] texts = {CROSSING, BAY, TWICE};
+        String[] texts = {Scenes.CROSSING, Scenes.BAY, TWICE};
         for (int k = 0; k < due.length; k++) {
             CartPaths paths = Check.of(texts[k / 2]);
             for (int what = 0; what < 5; what++) {
@@ -298,12 +291,12 @@ final class EdgePlan {
 
     private void again() {
         check.promise(36, "SUM of a PLAN by a BOUND, were PLACES those at a TIME of the PLAN now (TIMES anew from 0 on);");
-        CartPaths paths = Check.of(CROSSING);
+        CartPaths paths = Check.of(Scenes.CROSSING);
         int[] due = {5, 3, 1, 0};
         for (int time = 0; time <= 40; time++) {
             check.same("at " + time, paths.again(10, time), due[Math.min(time, 3)]);
         }
-        CartPaths loose = Check.of(LOOSE);
+        CartPaths loose = Check.of(Scenes.LOOSE);
         check.same("by 15", loose.again(15, 0), 6);
         check.same("by 10", loose.again(10, 0), 5);
         check.same("no carts", noCarts().again(10, 40), 0);
@@ -315,7 +308,7 @@ final class EdgePlan {
         check.same("cut at 1", cut.again(16, 1), -1);
         Oracle oracle = new Oracle();
         oracle.parse(text);
-        java.util.List<int[]> ways = oracle.grow(16).ways();
+        List<int[]> ways = oracle.grow(16).ways();
         for (int cart = 0; cart < 3; cart++) {
             oracle.places.set(cart, ways.get(cart)[1]);
         }
@@ -331,7 +324,7 @@ final class EdgePlan {
         check.same("round it", paths.among(0), 4);
         check.same("b is free to go", paths.among(1), 1);
         check.same("one alone", Check.of("row ...;cart a at 0 0 to 2 0;").among(0), 2);
-        check.same("on its goal", Check.of("row ..;cart a at 0 0 to 0 0;cart b at 1 0 to 1 0;").among(0), 0);
+        check.same("on its goal", Check.of(Scenes.STILL).among(0), 0);
         check.promise(37, "NONE: it has no WAY then.");
         check.same("shut in", Check.of("row ...;cart a at 0 0 to 2 0;cart b at 1 0 to 1 0;").among(0), -1);
         check.same("by the first one, too", Check.of("row ...;cart a at 1 0 to 1 0;cart b at 0 0 to 2 0;").among(1), -1);
@@ -346,9 +339,8 @@ final class EdgePlan {
         for (int what = 0; what < plan.length; what++) {
             check.same("plan " + what, paths.plan(20, what), plan[what]);
         }
-        Oracle oracle = new Oracle();
-        oracle.parse(LAST_TIME);
-        check.same("sum of the second reading", oracle.sum(oracle.grow(20).ways()), 76);
+        check.same("the second reading at 40", secondReading(LAST_TIME, 20).get(0)[40], 30);
+        check.same("the second reading at 39", secondReading(LAST_TIME, 20).get(0)[39], 31);
         check.same("at 39", paths.at(20, 0, 39), 31);
         check.same("at 40", paths.at(20, 0, 40), 30);
         check.same("the last move", paths.move(20, 0, 39), 3);
@@ -367,6 +359,41 @@ final class EdgePlan {
         check.same("no move is left", paths.late(20, 0, 0, 40, 20), 0);
         check.same("again from 39", paths.again(20, 39), 1);
         check.same("again from 40", paths.again(20, 40), 0);
+        nearAtTheLastTime();
+        followsAtTheLastTime();
+    }
+
+    private static List<int[]> secondReading(String text, int bound) {
+        Oracle oracle = new Oracle();
+        oracle.parse(text);
+        return oracle.grow(bound).ways();
+    }
+
+    private void nearAtTheLastTime() {
+        String text = "row v.>>>v;row #<>^.<;row .#^>>v;row >>^.<v;row >^<v>v;row ^>..<<;cart a at 0 5 to 2 4;"
+                + "cart b at 0 4 to 2 3;cart c at 3 5 to 1 4;";
+        CartPaths paths = Check.of(text);
+        check.same("next to one another", paths.near(30, 0, 2, false), 1);
+        check.same("at the last time first", paths.near(30, 0, 2, true), 40);
+        List<int[]> ways = secondReading(text, 30);
+        for (int time = 38; time <= 40; time++) {
+            check.same("a by the second reading at " + time, paths.at(30, 0, time), ways.get(0)[time]);
+            check.same("c by the second reading at " + time, paths.at(30, 2, time), ways.get(2)[time]);
+        }
+    }
+
+    private void followsAtTheLastTime() {
+        String text = "row <^^>>v;row >^v<<<;row <>>>>.;row v<<<<<;row >>.>>v;row >.#...;cart a at 3 2 to 4 4;"
+                + "cart b at 0 3 to 5 4;cart c at 3 0 to 5 5;";
+        CartPaths paths = Check.of(text);
+        check.same("all end at 40", paths.plan(25, 0), 120);
+        check.same("a follows b at 40 alone", paths.follows(25, 0, 1), 1);
+        check.same("b leaves", paths.at(25, 1, 39), paths.at(25, 0, 40));
+        List<int[]> ways = secondReading(text, 25);
+        for (int cart = 0; cart < 3; cart++) {
+            check.same("the second reading at 39", paths.at(25, cart, 39), ways.get(cart)[39]);
+            check.same("the second reading at 40", paths.at(25, cart, 40), ways.get(cart)[40]);
+        }
     }
 
     private void fiveCarts() {
@@ -406,7 +433,8 @@ final class EdgePlan {
         }
         used.bestOrder(true);
         used.count(7);
-        for (String text : new String[] {CROSSING, BAY, LOOSE, "row ......;row ......;cart a at 0 0 to 5 1;", "row ..;"}) {
+        for (String text : new String[] {Scenes.CROSSING, Scenes.BAY, Scenes.LOOSE,
+            "row ......;row ......;cart a at 0 0 to 5 1;", "row ..;"}) {
             Check.feed(used, text);
             used.read();
             CartPaths fresh = Check.of(text);

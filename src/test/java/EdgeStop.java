@@ -3,15 +3,9 @@ final class EdgeStop {
     /** By its plan a is in 12, 13, 13, 14, 15 and b in 2, 8, 14, 20: a waits ahead of 14 till b has left it. */
     private static final String WAITS =
             "row ##.#;row ##.#;row ....;row ##.#;cart a at 0 2 to 3 2;cart b at 2 0 to 2 3;";
-    /** By 10 a is in 6, 7, 1, by 15 in 6, 6, 7, 1; b is in 1, 2, 8, 7. */
-    private static final String LOOSE = "row #..;row ...;cart a at 0 1 to 1 0;cart b at 1 0 to 1 1;";
     /** a goes two cells behind b. */
     private static final String APART = "row ......;cart a at 0 0 to 3 0;cart b at 2 0 to 5 0;";
     private static final String ONE = "row ....;cart a at 0 0 to 3 0;";
-    private static final String STILL = "row ..;cart a at 0 0 to 0 0;cart b at 1 0 to 1 0;";
-    private static final String RING = "row ..;row ..;cart a at 0 0 to 1 0;cart b at 1 0 to 1 1;"
-            + "cart c at 1 1 to 0 1;cart d at 0 1 to 0 0;";
-    private static final String SNAKE = "row >>>>>v;row v<<<<<;row >>>>>v;row v<<<<<;row >>>>>v;row .<<<<<;";
 
     private final Check check;
 
@@ -40,7 +34,7 @@ final class EdgeStop {
             check.noNumber("for " + n, () -> one.late(10, 0, 0, 0, n));
             check.noNumber("critical for " + n, () -> one.critical(10, n, true));
         }
-        CartPaths loose = Check.of(LOOSE);
+        CartPaths loose = Check.of(Scenes.LOOSE);
         check.same("by 10", loose.late(10, 0, 0, 0, 1), 1);
         check.same("by 15 it waits anyhow", loose.late(15, 0, 0, 0, 1), 0);
     }
@@ -93,13 +87,13 @@ final class EdgeStop {
         check.same("a place that is left", apart.late(10, 0, 1, 0, 20), 19);
         check.same("the one ahead never waits", apart.late(10, 1, 0, 0, 20), 0);
         // by 10 b comes to 7 at 3; a, stopped for three times, leaves 7 for 1 at 5
-        CartPaths loose = Check.of(LOOSE);
+        CartPaths loose = Check.of(Scenes.LOOSE);
         check.same("a itself", loose.late(10, 0, 0, 0, 3), 3);
         check.same("b waits for a", loose.late(10, 1, 0, 0, 3), 2);
         // b leaves cell 1 at 1, a comes there at 2: it waits for b's stop
         check.same("a waits for b", loose.late(10, 0, 1, 0, 3), 2);
         check.same("b by its own stop", loose.late(10, 1, 1, 0, 3), 3);
-        CartPaths ring = Check.of(RING);
+        CartPaths ring = Check.of(Scenes.RING);
         for (int stopped = 0; stopped < 4; stopped++) {
             for (int cart = 0; cart < 4; cart++) {
                 check.same("in a ring all wait", ring.late(10, cart, stopped, 0, 7), 7);
@@ -110,16 +104,16 @@ final class EdgeStop {
     private void howLate() {
         check.terms("LATE of a CART: by how much later it comes to the last CELL of its WAY than by the PLAN "
                 + "(TIMES beyond 40, too).");
-        CartPaths snake = Check.of(SNAKE + "cart a at 0 0 to 0 5;");
+        CartPaths snake = Check.of(Scenes.SNAKE + "cart a at 0 0 to 0 5;");
         for (int time = 0; time < 35; time++) {
             check.same("from " + time, snake.late(10, 0, 0, time, 20), 20);
         }
         check.same("from its end on", snake.late(10, 0, 0, 35, 20), 0);
         // b is on its goal at 0, but its last cell is the one to which it comes back at 2
-        CartPaths bay = Check.of("row ...;row #.#;cart a at 0 0 to 2 0;cart b at 1 0 to 1 0;");
+        CartPaths bay = Check.of(Scenes.BAY);
         check.same("b comes back later", bay.late(10, 1, 0, 0, 4), 4);
         check.same("b comes back later by itself", bay.late(10, 1, 1, 1, 4), 4);
-        check.same("one that never moves", Check.of(STILL).late(10, 0, 0, 0, 20), 0);
+        check.same("one that never moves", Check.of(Scenes.STILL).late(10, 0, 0, 0, 20), 0);
     }
 
     private void late() {
@@ -139,7 +133,7 @@ final class EdgeStop {
         check.same("one", Check.of(APART).slack(10, 1, 0), 1);
         check.same("it has ended", Check.of(APART).slack(10, 1, 3), 20);
         check.same("its own lateness does not count", Check.of(ONE).slack(10, 0, 0), 20);
-        check.same("in a ring", Check.of(RING).slack(10, 3, 0), 0);
+        check.same("in a ring", Check.of(Scenes.RING).slack(10, 3, 0), 0);
         CartPaths far = Check.of("row ......;row .#####;cart a at 0 1 to 3 0;cart b at 4 0 to 5 0;");
         check.same("nobody comes there", far.slack(10, 1, 0), 20);
         far.goal(0, 4, 0);
@@ -159,10 +153,10 @@ final class EdgeStop {
         check.promise(33, "of several the least;");
         check.same("a and b both by one", apart.critical(10, 1, false), 0);
         check.same("by one", apart.critical(10, 1, true), 1);
-        check.same("the ring's first", Check.of(RING).critical(10, 20, false), 0);
-        check.same("by 80", Check.of(RING).critical(10, 20, true), 80);
-        check.same("nobody is late", Check.of(STILL).critical(10, 20, false), 0);
-        check.same("by 0", Check.of(STILL).critical(10, 20, true), 0);
+        check.same("the ring's first", Check.of(Scenes.RING).critical(10, 20, false), 0);
+        check.same("by 80", Check.of(Scenes.RING).critical(10, 20, true), 80);
+        check.same("nobody is late", Check.of(Scenes.STILL).critical(10, 20, false), 0);
+        check.same("by 0", Check.of(Scenes.STILL).critical(10, 20, true), 0);
         check.promise(33, "NONE: no CARTS.");
         check.same("no carts", Check.of("row .;").critical(10, 1, false), -1);
         check.same("no carts, by how much", Check.of("row .;").critical(10, 20, true), -1);

@@ -1,14 +1,5 @@
 /** The tree by a bound, sentence by sentence: promises 18 and 19. */
 final class EdgeTree {
-    private static final String CROSSING =
-            "row #.#;row ...;row #.#;cart a at 0 1 to 2 1;cart b at 1 0 to 1 2;";
-    /** b must stay on its goal, or it can never come back; a tries at each time to go through. */
-    private static final String NONE_WAITS = "row .>>;cart a at 0 0 to 2 0;cart b at 1 0 to 1 0;";
-    private static final String NO_NODE = "row .#..;cart a at 0 0 to 2 0;cart b at 3 0 to 3 0;";
-    private static final String CUT = "row ...;cart a at 0 0 to 2 0;cart b at 2 0 to 0 0;";
-    /** By 10 the plan's sum is 5, by node 6; by 15 it is 6, by node 4. */
-    private static final String LOOSE = "row #..;row ...;cart a at 0 1 to 1 0;cart b at 1 0 to 1 1;";
-
     private final Check check;
 
     EdgeTree(Check check) {
@@ -43,7 +34,7 @@ final class EdgeTree {
 
     private void bounds() {
         check.terms("A TREE by a BOUND (10 to 30, in tenths):");
-        CartPaths paths = Check.of(LOOSE);
+        CartPaths paths = Check.of(Scenes.LOOSE);
         for (int bound = 10; bound <= 30; bound++) {
             check.same("sum by " + bound, paths.plan(bound, 0), bound < 15 ? 5 : 6);
         }
@@ -55,7 +46,7 @@ final class EdgeTree {
     private void nodes() {
         check.terms("NODES, numbered as they come, each with what is FORBIDDEN to CARTS, "
                 + "and of each its BEST WAY by that;");
-        CartPaths paths = Check.of(LOOSE);
+        CartPaths paths = Check.of(Scenes.LOOSE);
         node(paths, 10, 1, 0, 4, 1, 0, 1);
         node(paths, 10, 2, 0, 4, 1, 1, 1);
         node(paths, 10, 3, 1, 5, 1, 0, 2);
@@ -77,12 +68,12 @@ final class EdgeTree {
 
     private void nodeZero() {
         check.terms("NODE 0: nothing is FORBIDDEN (if some CART has no WAY, there is no NODE, and no PLAN).");
-        node(Check.of(CROSSING), 10, 0, -1, 4, 1, -1, 0, 1);
-        CartPaths none = Check.of(NO_NODE);
+        node(Check.of(Scenes.CROSSING), 10, 0, -1, 4, 1, -1, 0, 1);
+        CartPaths none = Check.of(Scenes.NO_NODE);
         plan(none, 10, -1, 0, 0, -1, -1, -1);
         check.noElement("no node 0", () -> none.node(10, 0, 0));
         check.terms("NODES that were not SPLIT yet wait.");
-        CartPaths paths = Check.of(CROSSING);
+        CartPaths paths = Check.of(Scenes.CROSSING);
         check.same("split", paths.node(10, 0, 5), 1);
         check.same("waits, and is the plan", paths.node(10, 1, 5), 0);
         check.same("waits", paths.node(10, 2, 5), 0);
@@ -90,9 +81,9 @@ final class EdgeTree {
 
     /** The tree of one bound, built again and again for other scenes. */
     private void anew() {
-        CartPaths paths = Check.of(NONE_WAITS);
+        CartPaths paths = Check.of(Scenes.NONE_WAITS);
         plan(paths, 10, -1, 39, 39, -1, 40, -1);
-        Check.feed(paths, CROSSING);
+        Check.feed(paths, Scenes.CROSSING);
         paths.read();
         plan(paths, 10, 5, 3, 1, 3, 5, 1);
         node(paths, 10, 1, 0, 5, 0, 0, 1, 0);
@@ -109,19 +100,19 @@ final class EdgeTree {
         check.same("cut", paths.plan(10, 0), -2);
         paths.change(0, 1);
         plan(paths, 10, 0, 1, 0, 0, 0, 0);
-        Check.feed(paths, NO_NODE);
+        Check.feed(paths, Scenes.NO_NODE);
         paths.read();
         plan(paths, 10, -1, 0, 0, -1, -1, -1);
     }
 
     private void chosen() {
         check.terms("Again and again: LOW is the least SUM of those that wait;");
-        CartPaths paths = Check.of(LOOSE);
+        CartPaths paths = Check.of(Scenes.LOOSE);
         check.same("by 15 a node of sum 4 waits", paths.plan(15, 4), 4);
         check.same("by 14 none of sum 4 waits any more", paths.plan(14, 4), 5);
         // b goes ahead of a through nearly all cells
-        check.same("a great sum", Check.of("row >>>>>v;row v<<<<<;row >>>>>v;row v<<<<<;row >>>>>v;row .<<<<<;"
-                + "cart a at 0 0 to 2 5;cart b at 1 0 to 0 5;").plan(10, 4), 33 + 34);
+        check.same("a great sum", Check.of(Scenes.SNAKE + "cart a at 0 0 to 2 5;cart b at 1 0 to 0 5;").plan(10, 4),
+                33 + 34);
         check.terms("of those whose SUM, ten times, is no more than BOUND times LOW:");
         // node 4 has the sum 6 when 4 is the least: 60 is no more than 15 times 4, but more than 14 times
         plan(paths, 15, 6, 5, 2, 3, 4, 4);
@@ -136,7 +127,7 @@ final class EdgeTree {
         node(sums, 14, 2, 0, 3, 0);
         plan(sums, 30, 3, 3, 1, 2, 3, 2);
         check.terms("then the first.");
-        CartPaths first = Check.of(CROSSING);
+        CartPaths first = Check.of(Scenes.CROSSING);
         node(first, 10, 1, 0, 5, 0);
         node(first, 10, 2, 0, 5, 0);
         check.same("node 1 is the plan", first.plan(10, 5), 1);
@@ -164,7 +155,7 @@ final class EdgeTree {
         node(move, 10, 2, 0, 5, 1, 1, 1);
         check.terms("and all that was;");
         // each node forbids one cell more, and a comes one time later
-        CartPaths more = Check.of(NONE_WAITS);
+        CartPaths more = Check.of(Scenes.NONE_WAITS);
         for (int node = 1; node < 39; node++) {
             node(more, 10, node, node - 1, 2 + node, 1, 0, node, 1);
         }
@@ -172,7 +163,7 @@ final class EdgeTree {
 
     private void childrenThatDoNotCome() {
         check.terms("its BEST WAY is found anew; where it has none, that NODE does not come (and has no number).");
-        CartPaths other = Check.of(NONE_WAITS);
+        CartPaths other = Check.of(Scenes.NONE_WAITS);
         check.same("the other cart's never come", other.plan(10, 1), 39);
         CartPaths lesser = Check.of("row .>>;cart a at 1 0 to 1 0;cart b at 0 0 to 2 0;");
         check.same("the lesser cart's never come", lesser.plan(10, 1), 39);
@@ -215,40 +206,40 @@ final class EdgeTree {
 
     private void plan() {
         check.promise(18, "Of the TREE by a BOUND what 0 the PLAN's SUM (NONE: no PLAN; -2: CUT),");
-        check.same("a plan", Check.of(CROSSING).plan(10, 0), 5);
-        check.same("no node", Check.of(NO_NODE).plan(10, 0), -1);
-        check.same("none waits", Check.of(NONE_WAITS).plan(10, 0), -1);
-        check.same("cut", Check.of(CUT).plan(10, 0), -2);
+        check.same("a plan", Check.of(Scenes.CROSSING).plan(10, 0), 5);
+        check.same("no node", Check.of(Scenes.NO_NODE).plan(10, 0), -1);
+        check.same("none waits", Check.of(Scenes.NONE_WAITS).plan(10, 0), -1);
+        check.same("cut", Check.of(Scenes.CUT).plan(10, 0), -2);
         check.promise(18, "1 how many NODES came, 2 how many were SPLIT,");
-        plan(Check.of(CROSSING), 30, 5, 3, 1);
+        plan(Check.of(Scenes.CROSSING), 30, 5, 3, 1);
         plan(Check.of("row .;cart a at 0 0 to 0 0;"), 30, 0, 1, 0);
-        plan(Check.of(NO_NODE), 30, -1, 0, 0);
+        plan(Check.of(Scenes.NO_NODE), 30, -1, 0, 0);
         check.promise(18, "3 the latest TIME at which a CART ENDS by the PLAN (NONE without a PLAN, without CARTS),");
-        check.same("a's", Check.of(CROSSING).plan(10, 3), 3);
+        check.same("a's", Check.of(Scenes.CROSSING).plan(10, 3), 3);
         check.same("all at 0", Check.of("row .;cart a at 0 0 to 0 0;").plan(10, 3), 0);
         check.same("without carts", Check.of("row .;").plan(10, 3), -1);
-        check.same("no node", Check.of(NO_NODE).plan(10, 3), -1);
-        check.same("none waits", Check.of(NONE_WAITS).plan(10, 3), -1);
-        check.same("cut", Check.of(CUT).plan(10, 3), -1);
+        check.same("no node", Check.of(Scenes.NO_NODE).plan(10, 3), -1);
+        check.same("none waits", Check.of(Scenes.NONE_WAITS).plan(10, 3), -1);
+        check.same("cut", Check.of(Scenes.CUT).plan(10, 3), -1);
         check.promise(18, "4 LOW, as it was last asked (NONE: no NODE),");
-        check.same("the plan's", Check.of(CROSSING).plan(10, 4), 5);
-        check.same("less than the plan's sum", Check.of(LOOSE).plan(15, 4), 4);
-        check.same("as last asked ahead of none that waits", Check.of(NONE_WAITS).plan(10, 4), 40);
+        check.same("the plan's", Check.of(Scenes.CROSSING).plan(10, 4), 5);
+        check.same("less than the plan's sum", Check.of(Scenes.LOOSE).plan(15, 4), 4);
+        check.same("as last asked ahead of none that waits", Check.of(Scenes.NONE_WAITS).plan(10, 4), 40);
         check.same("with one cart more", Check.of("row .>>;row ###;row ...;cart a at 0 0 to 2 0;cart b at 1 0 to 1 0;"
                 + "cart c at 0 2 to 2 2;").plan(10, 4), 42);
-        check.same("no node", Check.of(NO_NODE).plan(10, 4), -1);
+        check.same("no node", Check.of(Scenes.NO_NODE).plan(10, 4), -1);
         check.same("without carts", Check.of("row .;").plan(10, 4), 0);
     }
 
     private void planWithout() {
         check.promise(18, "5 the NODE that is the PLAN (NONE).");
-        check.same("node 1", Check.of(CROSSING).plan(10, 5), 1);
+        check.same("node 1", Check.of(Scenes.CROSSING).plan(10, 5), 1);
         check.same("node 0", Check.of("row .;").plan(10, 5), 0);
-        check.same("no node", Check.of(NO_NODE).plan(10, 5), -1);
-        check.same("none waits", Check.of(NONE_WAITS).plan(10, 5), -1);
-        check.same("cut", Check.of(CUT).plan(10, 5), -1);
+        check.same("no node", Check.of(Scenes.NO_NODE).plan(10, 5), -1);
+        check.same("none waits", Check.of(Scenes.NONE_WAITS).plan(10, 5), -1);
+        check.same("cut", Check.of(Scenes.CUT).plan(10, 5), -1);
         check.promise(18, "NoSuchElementException: another what.");
-        for (String text : new String[] {CROSSING, NO_NODE, CUT}) {
+        for (String text : new String[] {Scenes.CROSSING, Scenes.NO_NODE, Scenes.CUT}) {
             CartPaths paths = Check.of(text);
             for (int what : new int[] {-1, 6, Integer.MIN_VALUE, Integer.MAX_VALUE}) {
                 check.noElement("what " + what, () -> paths.plan(10, what));
@@ -260,7 +251,7 @@ final class EdgeTree {
         check.promise(19, "Of a NODE of it what 0 the one by which it came (NONE), 1 SUM, 2 CLASHES, "
                 + "3 the CART to which something is FORBIDDEN by it that was not ahead (NONE: NODE 0), "
                 + "4 how much is FORBIDDEN in all, 5 1 if it was SPLIT, else 0.");
-        CartPaths paths = Check.of(LOOSE);
+        CartPaths paths = Check.of(Scenes.LOOSE);
         node(paths, 10, 0, -1, 3, 1, -1, 0, 1);
         node(paths, 10, 2, 0, 4, 1, 1, 1, 1);
         node(paths, 10, 6, 2, 5, 0, 1, 2, 0);
@@ -276,6 +267,6 @@ final class EdgeTree {
         for (int what : new int[] {-1, 6, Integer.MIN_VALUE, Integer.MAX_VALUE}) {
             check.noElement("what " + what, () -> paths.node(10, 0, what));
         }
-        check.noElement("no node at all", () -> Check.of(NO_NODE).node(10, 0, 0));
+        check.noElement("no node at all", () -> Check.of(Scenes.NO_NODE).node(10, 0, 0));
     }
 }

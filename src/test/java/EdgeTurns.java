@@ -1,12 +1,11 @@
+import java.util.List;
+
 /** Carts by turns, what is written and counted, sentence by sentence: promises 38 to 44. */
 final class EdgeTurns {
-    private static final String CROSSING =
-            "row #.#;row ...;row #.#;cart a at 0 1 to 2 1;cart b at 1 0 to 1 2;";
     /** b stands in a's way down to 6: a first, and b must go round; b first, and a goes by 0. */
     private static final String AROUND = "row ..;row ..;cart a at 1 0 to 0 1;cart b at 1 1 to 1 1;";
     /** a can pass ahead of b alone. */
     private static final String HELD = "row ...;row #.#;cart a at 0 0 to 2 0;cart b at 1 1 to 1 0;";
-    private static final String ALL_FAIL = "row ...;cart a at 0 0 to 2 0;cart b at 2 0 to 0 0;";
     private static final String FIVE = "row .....;cart a at 0 0 to 0 0;cart b at 1 0 to 1 0;cart c at 2 0 to 2 0;"
             + "cart d at 3 0 to 3 0;cart e at 4 0 to 4 0;";
     private static final int[] WRONG = {Integer.MIN_VALUE, -2, -1, Integer.MAX_VALUE};
@@ -74,8 +73,24 @@ final class EdgeTurns {
         check.same("there is no time for b to do so", paths.byTurns(0), -1);
         Oracle oracle = new Oracle();
         oracle.parse(text);
-        check.same("sum of the second reading", oracle.sum(oracle.byTurns(java.util.List.of(1, 0))), 63);
-        check.same("it fails by the second reading", oracle.byTurns(java.util.List.of(0, 1)) == null ? 1 : 0, 1);
+        check.same("sum of the second reading", oracle.sum(oracle.byTurns(List.of(1, 0))), 63);
+        check.same("it fails by the second reading", oracle.byTurns(List.of(0, 1)) == null ? 1 : 0, 1);
+        goalThatIsFreeAtTheLastTime();
+    }
+
+    /** d is on c's goal at 39, and both end at 40. */
+    private void goalThatIsFreeAtTheLastTime() {
+        String text = "row v.<#><;row v<^<v.;row >v>^<^;row ^>v>v.;row ^^.^v^;row ##^^..;cart a at 2 3 to 1 3;"
+                + "cart b at 3 5 to 2 3;cart c at 2 1 to 1 0;cart d at 5 2 to 1 1;";
+        CartPaths paths = Check.of(text);
+        check.same("b, a, d, c", paths.byTurns(7), 126);
+        check.same("d on c's goal at 39", paths.turned(7, 3, 39), 1);
+        check.same("d on its own at 40", paths.turned(7, 3, 40), 7);
+        check.same("c ahead of its goal at 39", paths.turned(7, 2, 39), 2);
+        check.same("c on it at 40", paths.turned(7, 2, 40), 1);
+        Oracle oracle = new Oracle();
+        oracle.parse(text);
+        check.same("sum of the second reading", oracle.sum(oracle.byTurns(List.of(1, 0, 3, 2))), 126);
     }
 
     private void orders() {
@@ -106,16 +121,16 @@ final class EdgeTurns {
         check.promise(40, "BEST ORDER (sum false), or its SUM;");
         check.same("of the last two the first", three.bestOrder(false), 4);
         check.same("its sum", three.bestOrder(true), 5);
-        check.same("of both the first", Check.of(CROSSING).bestOrder(false), 0);
+        check.same("of both the first", Check.of(Scenes.CROSSING).bestOrder(false), 0);
         check.same("the second alone", Check.of("row ...;row #.#;cart a at 1 1 to 1 0;cart b at 0 0 to 2 0;")
                 .bestOrder(false), 1);
         check.same("the first alone", Check.of(HELD).bestOrder(false), 0);
         check.same("no carts", Check.of("row .;").bestOrder(false), 0);
         check.same("no carts' sum", Check.of("row .;").bestOrder(true), 0);
         check.promise(40, "NONE: all fail.");
-        check.same("none", Check.of(ALL_FAIL).bestOrder(false), -1);
-        check.same("no sum", Check.of(ALL_FAIL).bestOrder(true), -1);
-        CartPaths paths = Check.of(ALL_FAIL);
+        check.same("none", Check.of(Scenes.CUT).bestOrder(false), -1);
+        check.same("no sum", Check.of(Scenes.CUT).bestOrder(true), -1);
+        CartPaths paths = Check.of(Scenes.CUT);
         paths.bestOrder(true);
         paths.goal(1, 1, 0);
         check.same("not any more", paths.bestOrder(true), -1);
@@ -154,10 +169,10 @@ final class EdgeTurns {
 
     private void turned() {
         check.promise(39, "The CELL of a CART at a TIME BY TURNS in an ORDER.");
-        turned(Check.of(CROSSING), 0, 0, 6, 7, 8);
-        turned(Check.of(CROSSING), 0, 1, 1, 1, 7, 13);
-        turned(Check.of(CROSSING), 1, 0, 6, 6, 7, 8);
-        turned(Check.of(CROSSING), 1, 1, 1, 7, 13);
+        turned(Check.of(Scenes.CROSSING), 0, 0, 6, 7, 8);
+        turned(Check.of(Scenes.CROSSING), 0, 1, 1, 1, 7, 13);
+        turned(Check.of(Scenes.CROSSING), 1, 0, 6, 6, 7, 8);
+        turned(Check.of(Scenes.CROSSING), 1, 1, 1, 7, 13);
         CartPaths held = Check.of(HELD);
         check.promise(39, "NoSuchElementException: there is no such ORDER;");
         check.noElement("order 2", () -> held.turned(2, 0, 0));
@@ -217,7 +232,7 @@ final class EdgeTurns {
         signs.write(10, 1);
         octets(signs, ".#^\n>0<\n");
         check.promise(42, "WRITTEN: how many bytes.");
-        CartPaths paths = Check.of(CROSSING);
+        CartPaths paths = Check.of(Scenes.CROSSING);
         check.same("at 0", paths.write(10, 0), 12);
         octets(paths, "#1#\n0..\n#.#\n");
         check.same("at 40", paths.write(10, 40), 12);
@@ -230,7 +245,7 @@ final class EdgeTurns {
 
     private void octets() {
         check.promise(43, "Byte k of what was WRITTEN latest;");
-        CartPaths paths = Check.of(CROSSING);
+        CartPaths paths = Check.of(Scenes.CROSSING);
         paths.write(10, 2);
         octets(paths, "#.#\n.0.\n#1#\n");
         paths.tell(0, 0, 4);
@@ -244,7 +259,7 @@ final class EdgeTurns {
         octets(paths, "<\n");
         check.promise(43, "NONE without.");
         octets(new CartPaths(), "");
-        octets(Check.of(CROSSING), "");
+        octets(Check.of(Scenes.CROSSING), "");
     }
 
     private void count() {
@@ -273,8 +288,8 @@ final class EdgeTurns {
 
     private void countAlone() {
         check.promise(44, "7 SUM of all CARTS ALONE (NONE: one has no WAY).");
-        check.same("4, though they clash", Check.of(CROSSING).count(7), 4);
-        check.same("no plan, but a sum", Check.of(ALL_FAIL).count(7), 4);
+        check.same("4, though they clash", Check.of(Scenes.CROSSING).count(7), 4);
+        check.same("no plan, but a sum", Check.of(Scenes.CUT).count(7), 4);
         check.same("no carts", Check.of("row .;").count(7), 0);
         check.same("all on their goals", Check.of(FIVE).count(7), 0);
         check.same("one has no way", Check.of("row ..#.;cart a at 0 0 to 1 0;cart b at 1 0 to 3 0;").count(7), -1);

@@ -1,9 +1,5 @@
 /** Times, ways and clashes, sentence by sentence: promises 13 to 17. */
 final class EdgeWays {
-    private static final String CROSSING =
-            "row #.#;row ...;row #.#;cart a at 0 1 to 2 1;cart b at 1 0 to 1 2;";
-    /** b stands on its goal in a's way and goes aside, down and up again. */
-    private static final String BAY = "row ...;row #.#;cart a at 0 0 to 2 0;cart b at 1 0 to 1 0;";
     private static final String NO_WAY = "row .#.;cart a at 0 0 to 2 0;cart b at 2 0 to 0 0;";
 
     private final Check check;
@@ -43,7 +39,7 @@ final class EdgeWays {
 
     private void times() {
         check.terms("TIMES are 0 to 40.");
-        CartPaths paths = Check.of(CROSSING);
+        CartPaths paths = Check.of(Scenes.CROSSING);
         int[] first = {6, 6, 1, 1, 0, 0, 5, 6, 12};
         int[] last = {8, 8, -1, 0, 20, 3, 0, 8, 12};
         for (int call = 0; call < first.length; call++) {
@@ -100,14 +96,14 @@ final class EdgeWays {
 
     private void ends() {
         check.terms("It ENDS at the first TIME from which on it is on its GOAL; that is its COST;");
-        CartPaths bay = Check.of(BAY);
+        CartPaths bay = Check.of(Scenes.BAY);
         planned(bay, 1, 1, 7, 1);
         check.same("it is on its goal at 0", bay.way(10, 1, 4), 0);
         check.same("and ends at 2", bay.way(10, 1, 0), 2);
         check.same("alone it ends at 0", bay.cost(1), 0);
         check.terms("at TIME 40 it must be there.");
         // a comes later and later by what is forbidden, up to 40 and not beyond
-        CartPaths last = Check.of("row .>>;cart a at 0 0 to 2 0;cart b at 1 0 to 1 0;");
+        CartPaths last = Check.of(Scenes.NONE_WAITS);
         check.same("nodes", last.plan(10, 1), 39);
         check.same("the last one's cost", last.node(10, 38, 1), 40);
         check.same("no plan", last.plan(10, 0), -1);
@@ -146,7 +142,7 @@ final class EdgeWays {
         CartPaths waits = Check.of("row ##.#;row ##.#;row ....;row ##.#;cart a at 0 2 to 3 2;cart b at 2 0 to 2 3;");
         planned(waits, 0, 12, 13, 13, 14, 15);
         // b has two times to lose on its way back: aside to the right, and not staying
-        CartPaths aside = Check.of("row #..;row ...;cart a at 0 1 to 1 0;cart b at 1 0 to 1 1;");
+        CartPaths aside = Check.of(Scenes.LOOSE);
         planned(aside, 1, 1, 2, 8, 7);
         check.terms("ALONE: by nothing FORBIDDEN.");
         CartPaths through = Check.of("row ...;cart a at 0 0 to 2 0;cart b at 2 0 to 0 0;cart c at 1 0 to 1 0;");
@@ -200,10 +196,9 @@ final class EdgeWays {
 
     private void cost() {
         check.promise(13, "COST of a CART ALONE;");
-        check.same("on its goal", Check.of(BAY).cost(1), 0);
-        check.same("by nobody hindered", Check.of(BAY).cost(0), 2);
-        check.same("through all cells", Check.of("row >>>>>v;row v<<<<<;row >>>>>v;row v<<<<<;row >>>>>v;"
-                + "row .<<<<<;cart a at 0 0 to 0 5;").cost(0), 35);
+        check.same("on its goal", Check.of(Scenes.BAY).cost(1), 0);
+        check.same("by nobody hindered", Check.of(Scenes.BAY).cost(0), 2);
+        check.same("through all cells", Check.of(Scenes.SNAKE + "cart a at 0 0 to 0 5;").cost(0), 35);
         check.promise(13, "NONE: it has no WAY.");
         CartPaths none = Check.of(NO_WAY);
         check.same("a", none.cost(0), -1);
@@ -215,12 +210,12 @@ final class EdgeWays {
 
     private void alone() {
         check.promise(14, "The CELL of a CART ALONE at a TIME;");
-        way(Check.of(CROSSING), 0, 6, 7, 8);
-        way(Check.of(CROSSING), 1, 1, 7, 13);
+        way(Check.of(Scenes.CROSSING), 0, 6, 7, 8);
+        way(Check.of(Scenes.CROSSING), 1, 1, 7, 13);
         check.promise(14, "NONE: it has no WAY.");
         way(Check.of(NO_WAY), 0, -1);
         check.promise(14, "IllegalArgumentException: the TIME is none.");
-        for (String text : new String[] {CROSSING, NO_WAY}) {
+        for (String text : new String[] {Scenes.CROSSING, NO_WAY}) {
             CartPaths paths = Check.of(text);
             for (int time : new int[] {-1, 41, Integer.MIN_VALUE, Integer.MAX_VALUE}) {
                 check.noNumber("time " + time, () -> paths.alone(0, time));
@@ -231,10 +226,10 @@ final class EdgeWays {
     private void clash() {
         check.promise(15, "Of CLASHES of all CARTS ALONE what 0 how many, of the FIRST of them 1 its TIME, 2 sort, "
                 + "3 the lesser CART, 4 the other one (NONE without).");
-        clash(Check.of(CROSSING), 1, 1, 0, 0, 1);
+        clash(Check.of(Scenes.CROSSING), 1, 1, 0, 0, 1);
         clash(Check.of("row .;"), 0, -1, -1, -1, -1);
         clash(Check.of("row .;cart a at 0 0 to 0 0;"), 0, -1, -1, -1, -1);
-        CartPaths paths = Check.of(CROSSING);
+        CartPaths paths = Check.of(Scenes.CROSSING);
         paths.goal(1, 1, 0);
         clash(paths, 0, -1, -1, -1, -1);
         paths.undo();
@@ -266,8 +261,7 @@ final class EdgeWays {
         check.same("by a cell that is left one way", paths.reach(0), 4);
         check.same("not against it, but into it", paths.reach(1), 3);
         check.same("others are no hindrance", paths.reach(2), 3);
-        check.same("through all cells", Check.of("row >>>>>v;row v<<<<<;row >>>>>v;row v<<<<<;row >>>>>v;"
-                + "row .<<<<<;cart a at 0 0 to 0 0;").reach(0), 36);
+        check.same("through all cells", Check.of(Scenes.SNAKE + "cart a at 0 0 to 0 0;").reach(0), 36);
     }
 
     private void far() {
@@ -284,8 +278,7 @@ final class EdgeWays {
         check.same("behind carts that stay", paths.far(0, 2, 3, 2), 3);
         check.same("to itself", paths.far(2, 2, 2, 2), 0);
         check.same("to the next", paths.far(2, 2, 3, 2), 1);
-        check.same("through all cells", Check.of("row >>>>>v;row v<<<<<;row >>>>>v;row v<<<<<;row >>>>>v;"
-                + "row .<<<<<;").far(0, 0, 0, 5), 35);
+        check.same("through all cells", Check.of(Scenes.SNAKE).far(0, 0, 0, 5), 35);
         check.promise(17, "NONE: there is no way.");
         check.same("to a wall", paths.far(0, 0, 1, 1), -1);
         check.same("from a wall", paths.far(1, 1, 0, 1), -1);

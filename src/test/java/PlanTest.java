@@ -1,10 +1,5 @@
 /** Promises 20 to 24, 26 to 31 and 34 to 37: what is told of a plan, but for stops. */
 public final class PlanTest {
-    /** By its plan a waits once for b: a is in 6, 6, 7, 8, b in 1, 7, 13. */
-    private static final String CROSSING =
-            "row #.#;row ...;row #.#;cart a at 0 1 to 2 1;cart b at 1 0 to 1 2;";
-    /** b stands in a's way on its goal and goes aside, down and up again. */
-    private static final String BAY = "row ...;row #.#;cart a at 0 0 to 2 0;cart b at 1 0 to 1 0;";
     private static final Check CHECK = new Check("plan");
 
     public static void main(String[] args) {
@@ -21,15 +16,15 @@ public final class PlanTest {
         without();
         again();
         among();
-        wrongNumbers(Check.of(CROSSING));
-        withoutAPlan(Check.of("row .>>;cart a at 0 0 to 2 0;cart b at 1 0 to 1 0;"));
-        withoutAPlan(Check.of("row ...;cart a at 0 0 to 2 0;cart b at 2 0 to 0 0;"));
+        wrongNumbers(Check.of(Scenes.CROSSING));
+        withoutAPlan(Check.of(Scenes.NONE_WAITS));
+        withoutAPlan(Check.of(Scenes.CUT));
         noCarts(Check.of("row ..;"));
         CHECK.close();
     }
 
     private static void atAndMove() {
-        CartPaths paths = Check.of(CROSSING);
+        CartPaths paths = Check.of(Scenes.CROSSING);
         int[] a = {6, 6, 7, 8};
         int[] b = {1, 7, 13, 13};
         for (int time = 0; time <= 40; time++) {
@@ -49,7 +44,7 @@ public final class PlanTest {
     }
 
     private static void usedAndBusiest() {
-        CartPaths paths = Check.of(CROSSING);
+        CartPaths paths = Check.of(Scenes.CROSSING);
         CHECK.same("used by both", paths.used(10, 1, 1, false), 2);
         CHECK.same("left by both", paths.used(10, 1, 1, true), 2);
         CHECK.same("used by a", paths.used(10, 0, 1, false), 1);
@@ -61,13 +56,13 @@ public final class PlanTest {
         CHECK.same("busiest", paths.busiest(10), 7);
         CHECK.same("of several the least", Check.of("row ...;cart a at 2 0 to 1 0;").busiest(10), 1);
         // b leaves its goal and comes back: one cart, used once
-        CartPaths bay = Check.of(BAY);
+        CartPaths bay = Check.of(Scenes.BAY);
         CHECK.same("used by two", bay.used(10, 1, 0, false), 2);
         CHECK.same("left by two", bay.used(10, 1, 0, true), 2);
     }
 
     private static void sharedCells() {
-        CartPaths paths = Check.of(CROSSING);
+        CartPaths paths = Check.of(Scenes.CROSSING);
         CHECK.same("how many", paths.shared(10, -1), 1);
         CHECK.same("the first", paths.shared(10, 0), 7);
         CHECK.same("behind", paths.shared(10, 1), -1);
@@ -79,20 +74,20 @@ public final class PlanTest {
     }
 
     private static void waits() {
-        CHECK.same("a waits once", Check.of(CROSSING).waits(10), 1);
+        CHECK.same("a waits once", Check.of(Scenes.CROSSING).waits(10), 1);
         CHECK.same("nobody waits", Check.of("row ...;cart a at 0 0 to 2 0;").waits(10), 0);
-        CHECK.same("going aside is no wait", Check.of(BAY).waits(10), 0);
+        CHECK.same("going aside is no wait", Check.of(Scenes.BAY).waits(10), 0);
         // c stays on its goal all the time: it has ended
         CHECK.same("one that has ended does not wait",
                 Check.of("row ..;row ..;cart c at 0 1 to 0 1;cart a at 0 0 to 1 0;").waits(10), 0);
     }
 
     private static void worse() {
-        CHECK.same("5 by 4", Check.of(CROSSING).worse(10), Float.floatToIntBits(1.25f));
+        CHECK.same("5 by 4", Check.of(Scenes.CROSSING).worse(10), Float.floatToIntBits(1.25f));
         CHECK.same("alone 0", Check.of("row .;cart a at 0 0 to 0 0;").worse(10), Float.floatToIntBits(1.0f));
         CHECK.same("no worse", Check.of("row ...;cart a at 0 0 to 2 0;").worse(10), Float.floatToIntBits(1.0f));
-        CHECK.same("4 by 2", Check.of(BAY).worse(10), Float.floatToIntBits(2.0f));
-        CartPaths third = Check.of("row #..;row ...;cart a at 0 1 to 1 0;cart b at 1 0 to 1 1;");
+        CHECK.same("4 by 2", Check.of(Scenes.BAY).worse(10), Float.floatToIntBits(2.0f));
+        CartPaths third = Check.of(Scenes.LOOSE);
         CHECK.same("5 by 3", third.worse(10), Float.floatToIntBits(5.0f / 3.0f));
         CHECK.same("6 by 3", third.worse(15), Float.floatToIntBits(2.0f));
         CartPaths more = Check.of("row #..;row ..^;cart a at 2 0 to 2 0;cart b at 2 1 to 1 1;");
@@ -103,7 +98,7 @@ public final class PlanTest {
     }
 
     private static void who() {
-        CartPaths paths = Check.of(CROSSING);
+        CartPaths paths = Check.of(Scenes.CROSSING);
         CHECK.same("b is there", paths.who(10, 1, 1, 1), 1);
         CHECK.same("a is there then", paths.who(10, 1, 1, 2), 0);
         CHECK.same("none", paths.who(10, 1, 1, 3), -1);
@@ -112,7 +107,7 @@ public final class PlanTest {
     }
 
     private static void near() {
-        CartPaths paths = Check.of(CROSSING);
+        CartPaths paths = Check.of(Scenes.CROSSING);
         CHECK.same("one apart", paths.near(10, 0, 1, false), 1);
         CHECK.same("first at 1", paths.near(10, 0, 1, true), 1);
         CHECK.same("the same from the other", paths.near(10, 1, 0, true), 1);
@@ -125,7 +120,7 @@ public final class PlanTest {
     }
 
     private static void follows() {
-        CartPaths paths = Check.of(CROSSING);
+        CartPaths paths = Check.of(Scenes.CROSSING);
         CHECK.same("a comes where b leaves", paths.follows(10, 0, 1), 1);
         CHECK.same("b never where a leaves", paths.follows(10, 1, 0), 0);
         CartPaths row = Check.of("row ......;cart a at 0 0 to 4 0;cart b at 1 0 to 5 0;");
@@ -136,14 +131,14 @@ public final class PlanTest {
     }
 
     private static void ended() {
-        CartPaths paths = Check.of(CROSSING);
+        CartPaths paths = Check.of(Scenes.CROSSING);
         int[] due = {0, 0, 2, 3, 3};
         for (int time = 0; time < due.length; time++) {
             CHECK.same("ended at " + time, paths.ended(10, time), due[time]);
         }
         CHECK.same("ended at 40", paths.ended(10, 40), 3);
         // b is on its goal at 0, but leaves it
-        CartPaths bay = Check.of(BAY);
+        CartPaths bay = Check.of(Scenes.BAY);
         CHECK.same("none ended at 0", bay.ended(10, 0), 0);
         CHECK.same("none ended at 1", bay.ended(10, 1), 0);
         CHECK.same("both ended at 2", bay.ended(10, 2), 3);
@@ -156,11 +151,11 @@ public final class PlanTest {
     }
 
     private static void way() {
-        CartPaths paths = Check.of(CROSSING);
+        CartPaths paths = Check.of(Scenes.CROSSING);
         way(paths, 0, 3, 1, 3, 2, 3);
         way(paths, 1, 2, 0, 3, 2, 2);
-        way(Check.of(BAY), 0, 2, 0, 3, 2, 2);
-        way(Check.of(BAY), 1, 2, 2, 2, 2, 0);
+        way(Check.of(Scenes.BAY), 0, 2, 0, 3, 2, 2);
+        way(Check.of(Scenes.BAY), 1, 2, 2, 2, 2, 0);
         way(Check.of("row .;cart a at 0 0 to 0 0;"), 0, 0, 0, 1, 0, 0);
         CHECK.noElement("what 5", () -> paths.way(10, 0, 5));
         CHECK.noElement("what -1", () -> paths.way(10, 0, -1));
@@ -175,10 +170,10 @@ public final class PlanTest {
         CHECK.same("no act", one.count(5), 0);
         CHECK.noState("a place", () -> one.without(10, 0, 0));
         CHECK.noState("a goal", () -> one.without(10, 2, 0));
-        CartPaths crossing = Check.of(CROSSING);
+        CartPaths crossing = Check.of(Scenes.CROSSING);
         CHECK.same("no plan then", crossing.without(10, 1, 1), -1);
         CHECK.noState("a wall", () -> crossing.without(10, 0, 0));
-        CHECK.same("cut then", Check.of(BAY).without(10, 1, 1), -1);
+        CHECK.same("cut then", Check.of(Scenes.BAY).without(10, 1, 1), -1);
         // less than now: a loose bound's plan is not the least one
         CartPaths loose = Check.of("row ..>..>;row ......;cart a at 5 1 to 0 0;cart b at 0 1 to 1 1;");
         CHECK.same("loose sum", loose.plan(15, 0), 15);
@@ -187,7 +182,7 @@ public final class PlanTest {
     }
 
     private static void again() {
-        CartPaths paths = Check.of(CROSSING);
+        CartPaths paths = Check.of(Scenes.CROSSING);
         CHECK.same("from the first time on", paths.again(10, 0), 5);
         CHECK.same("a follows b", paths.again(10, 1), 3);
         CHECK.same("from 2 on", paths.again(10, 2), 1);
@@ -195,7 +190,7 @@ public final class PlanTest {
         CHECK.same("places stay", paths.cart(0, 0), 6);
         CHECK.same("the plan stays", paths.at(10, 0, 1), 6);
         // the loose plan's sum is told by the same bound
-        CartPaths loose = Check.of("row #..;row ...;cart a at 0 1 to 1 0;cart b at 1 0 to 1 1;");
+        CartPaths loose = Check.of(Scenes.LOOSE);
         CHECK.same("by 10", loose.again(10, 0), 5);
         CHECK.same("by 15", loose.again(15, 0), 6);
     }
@@ -205,7 +200,7 @@ public final class PlanTest {
         CHECK.same("round the other one", paths.among(0), 4);
         CHECK.same("a goal that is a place", paths.among(1), -1);
         CHECK.same("no others", Check.of("row ...;cart a at 0 0 to 2 0;").among(0), 2);
-        CHECK.same("on its goal", Check.of("row ..;cart a at 0 0 to 0 0;cart b at 1 0 to 1 0;").among(0), 0);
+        CHECK.same("on its goal", Check.of(Scenes.STILL).among(0), 0);
         CHECK.same("shut in", Check.of("row ...;cart a at 0 0 to 2 0;cart b at 1 0 to 1 0;").among(0), -1);
         CHECK.noPlace("no cart", () -> paths.among(2));
         CHECK.noPlace("no cart below 0", () -> paths.among(-1));

@@ -59,7 +59,8 @@ public final class RoomTest {
         }
     }
 
-    private static int ask(CartPaths paths, int call, int a, int b, int c) {
+    /** One call of the face, by a number of its own. */
+    static int ask(CartPaths paths, int call, int a, int b, int c) {
         switch (call) {
             case 0: return paths.end(a) ? 1 : 0;
             case 1: return paths.cell(a, b);

@@ -1,11 +1,5 @@
 /** Promises 25, 32 and 33: a cart stops, and who is late by that. */
 public final class StopTest {
-    /** By its plan a waits once for b: a is in 6, 6, 7, 8, b in 1, 7, 13. */
-    private static final String CROSSING =
-            "row #.#;row ...;row #.#;cart a at 0 1 to 2 1;cart b at 1 0 to 1 2;";
-    /** Four carts that go round at once, each into the cell that the next one leaves. */
-    private static final String RING = "row ..;row ..;cart a at 0 0 to 1 0;cart b at 1 0 to 1 1;"
-            + "cart c at 1 1 to 0 1;cart d at 0 1 to 0 0;";
     private static final Check CHECK = new Check("stop");
 
     public static void main(String[] args) {
@@ -15,12 +9,12 @@ public final class StopTest {
         lateOnceOnly();
         slack();
         critical();
-        wrongNumbers(Check.of(CROSSING));
+        wrongNumbers(Check.of(Scenes.CROSSING));
         CHECK.close();
     }
 
     private static void lateAtACrossing() {
-        CartPaths paths = Check.of(CROSSING);
+        CartPaths paths = Check.of(Scenes.CROSSING);
         // b comes to 7 at 4, to 13 at 5; a to 7 at 5, to 8 at 6
         CHECK.same("b by itself", paths.late(10, 1, 1, 0, 3), 3);
         CHECK.same("a by b", paths.late(10, 0, 1, 0, 3), 3);
@@ -48,13 +42,12 @@ public final class StopTest {
         CHECK.same("a waits then", paths.late(10, 0, 1, 0, 2), 1);
         CHECK.same("b never minds a", paths.late(10, 1, 0, 0, 20), 0);
         // far beyond the last time
-        CartPaths snake = Check.of("row >>>>>v;row v<<<<<;row >>>>>v;row v<<<<<;row >>>>>v;row .<<<<<;"
-                + "cart a at 0 0 to 0 5;");
+        CartPaths snake = Check.of(Scenes.SNAKE + "cart a at 0 0 to 0 5;");
         CHECK.same("late beyond 40", snake.late(10, 0, 0, 34, 20), 20);
     }
 
     private static void lateInARing() {
-        CartPaths paths = Check.of(RING);
+        CartPaths paths = Check.of(Scenes.RING);
         CHECK.same("all go at once", paths.plan(10, 0), 4);
         for (int stopped = 0; stopped < 4; stopped++) {
             for (int cart = 0; cart < 4; cart++) {
@@ -65,7 +58,7 @@ public final class StopTest {
 
     private static void lateOnceOnly() {
         // b leaves its goal for a and comes back; a stop of a makes b wait to come back
-        CartPaths paths = Check.of("row ...;row #.#;cart a at 0 0 to 2 0;cart b at 1 0 to 1 0;");
+        CartPaths paths = Check.of(Scenes.BAY);
         CHECK.same("a by itself", paths.late(10, 0, 0, 0, 4), 4);
         CHECK.same("b comes back later", paths.late(10, 1, 0, 0, 4), 4);
         CHECK.same("a by b", paths.late(10, 0, 1, 0, 4), 4);
@@ -79,7 +72,7 @@ public final class StopTest {
     }
 
     private static void slack() {
-        CartPaths paths = Check.of(CROSSING);
+        CartPaths paths = Check.of(Scenes.CROSSING);
         CHECK.same("each stop of b makes a late", paths.slack(10, 1, 0), 0);
         CHECK.same("in the middle too", paths.slack(10, 1, 1), 0);
         CHECK.same("b has ended", paths.slack(10, 1, 2), 20);
@@ -89,17 +82,17 @@ public final class StopTest {
         CHECK.same("a can close up", row.slack(10, 1, 0), 1);
         CHECK.same("a can close up later", row.slack(10, 1, 1), 1);
         CHECK.same("nobody else", Check.of("row ..;cart a at 0 0 to 1 0;").slack(10, 0, 0), 20);
-        CHECK.same("a ring has none", Check.of(RING).slack(10, 2, 0), 0);
+        CHECK.same("a ring has none", Check.of(Scenes.RING).slack(10, 2, 0), 0);
     }
 
     private static void critical() {
-        CartPaths paths = Check.of(CROSSING);
+        CartPaths paths = Check.of(Scenes.CROSSING);
         CHECK.same("b makes both late", paths.critical(10, 3, false), 1);
         CHECK.same("by 6", paths.critical(10, 3, true), 6);
-        CartPaths ring = Check.of(RING);
+        CartPaths ring = Check.of(Scenes.RING);
         CHECK.same("of several the least", ring.critical(10, 20, false), 0);
         CHECK.same("by 80", ring.critical(10, 20, true), 80);
-        CartPaths still = Check.of("row ..;cart a at 0 0 to 0 0;cart b at 1 0 to 1 0;");
+        CartPaths still = Check.of(Scenes.STILL);
         CHECK.same("nobody is late", still.critical(10, 1, false), 0);
         CHECK.same("by 0", still.critical(10, 1, true), 0);
     }

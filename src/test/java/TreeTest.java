@@ -1,7 +1,5 @@
 /** Promises 18 and 19: the tree of clashes by a bound, and its nodes. */
 public final class TreeTest {
-    private static final String CROSSING =
-            "row #.#;row ...;row #.#;cart a at 0 1 to 2 1;cart b at 1 0 to 1 2;";
     private static final Check CHECK = new Check("tree");
 
     public static void main(String[] args) {
@@ -30,7 +28,7 @@ public final class TreeTest {
     }
 
     private static void planOfACrossing() {
-        CartPaths paths = Check.of(CROSSING);
+        CartPaths paths = Check.of(Scenes.CROSSING);
         plan(paths, 10, 5, 3, 1, 3, 5, 1);
         plan(paths, 30, 5, 3, 1, 3, 5, 1);
         CartPaths none = Check.of("row ...;");
@@ -42,7 +40,7 @@ public final class TreeTest {
     }
 
     private static void nodesOfACrossing() {
-        CartPaths paths = Check.of(CROSSING);
+        CartPaths paths = Check.of(Scenes.CROSSING);
         node(paths, 10, 0, -1, 4, 1, -1, 0, 1);
         node(paths, 10, 1, 0, 5, 0, 0, 1, 0);
         node(paths, 10, 2, 0, 5, 0, 1, 1, 0);
@@ -50,7 +48,7 @@ public final class TreeTest {
 
     private static void lesserCartSplitsFirst() {
         // either cart may wait for one time: of equal nodes the first is taken
-        CartPaths paths = Check.of(CROSSING);
+        CartPaths paths = Check.of(Scenes.CROSSING);
         CHECK.same("a waits", paths.at(10, 0, 1), 6);
         CHECK.same("b goes", paths.at(10, 1, 1), 7);
         CartPaths turned = Check.of("row #.#;row ...;row #.#;cart a at 1 0 to 1 2;cart b at 0 1 to 2 1;");
@@ -77,7 +75,7 @@ public final class TreeTest {
 
     private static void noPlanWhenNoneWaits() {
         // b must stay, or it can never come back; a tries each time to go through
-        CartPaths paths = Check.of("row .>>;cart a at 0 0 to 2 0;cart b at 1 0 to 1 0;");
+        CartPaths paths = Check.of(Scenes.NONE_WAITS);
         plan(paths, 10, -1, 39, 39, -1, 40, -1);
         for (int node = 1; node < 39; node++) {
             node(paths, 10, node, node - 1, 2 + node, 1, 0, node, 1);
@@ -87,7 +85,7 @@ public final class TreeTest {
     }
 
     private static void cut() {
-        CartPaths paths = Check.of("row ...;cart a at 0 0 to 2 0;cart b at 2 0 to 0 0;");
+        CartPaths paths = Check.of(Scenes.CUT);
         CHECK.same("cut", paths.plan(10, 0), -2);
         CHECK.same("no end", paths.plan(10, 3), -1);
         CHECK.same("no node is the plan", paths.plan(10, 5), -1);
@@ -108,7 +106,7 @@ public final class TreeTest {
     }
 
     private static void boundTakesFewestClashes() {
-        CartPaths paths = Check.of("row #..;row ...;cart a at 0 1 to 1 0;cart b at 1 0 to 1 1;");
+        CartPaths paths = Check.of(Scenes.LOOSE);
         plan(paths, 10, 5, 7, 3, 3, 5, 6);
         node(paths, 10, 0, -1, 3, 1, -1, 0, 1);
         node(paths, 10, 1, 0, 4, 1, 0, 1, 1);
@@ -128,7 +126,7 @@ public final class TreeTest {
     }
 
     private static void wrongNumbers() {
-        CartPaths paths = Check.of(CROSSING);
+        CartPaths paths = Check.of(Scenes.CROSSING);
         CHECK.noNumber("bound 9", () -> paths.plan(9, 6));
         CHECK.noNumber("bound 31", () -> paths.plan(31, 0));
         CHECK.noElement("what 6", () -> paths.plan(10, 6));

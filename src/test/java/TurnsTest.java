@@ -1,7 +1,5 @@
 /** Promises 38 to 44: orders, what is written, what is counted. */
 public final class TurnsTest {
-    private static final String CROSSING =
-            "row #.#;row ...;row #.#;cart a at 0 1 to 2 1;cart b at 1 0 to 1 2;";
     private static final Check CHECK = new Check("turns");
 
     public static void main(String[] args) {
@@ -17,7 +15,7 @@ public final class TurnsTest {
     }
 
     private static void byTurns() {
-        CartPaths paths = Check.of(CROSSING);
+        CartPaths paths = Check.of(Scenes.CROSSING);
         CHECK.same("a first", paths.byTurns(0), 5);
         CHECK.same("b waits", paths.turned(0, 1, 1), 1);
         CHECK.same("b then", paths.turned(0, 1, 2), 7);
@@ -90,7 +88,7 @@ public final class TurnsTest {
         CHECK.same("last order's sum", five.byTurns(119), 0);
         CHECK.noElement("order 120", () -> five.byTurns(120));
         // asking for a row of carts must not disturb the ways of another order
-        CartPaths paths = Check.of(CROSSING);
+        CartPaths paths = Check.of(Scenes.CROSSING);
         CHECK.same("a first", paths.turned(0, 0, 1), 7);
         CHECK.same("order 1's first", paths.ordered(1, 0), 1);
         CHECK.same("a first still", paths.turned(0, 0, 1), 7);
@@ -98,7 +96,7 @@ public final class TurnsTest {
     }
 
     private static void allFail() {
-        CartPaths paths = Check.of("row ...;cart a at 0 0 to 2 0;cart b at 2 0 to 0 0;");
+        CartPaths paths = Check.of(Scenes.CUT);
         CHECK.same("a first", paths.byTurns(0), -1);
         CHECK.same("b first", paths.byTurns(1), -1);
         CHECK.same("no best", paths.bestOrder(false), -1);
@@ -128,7 +126,7 @@ public final class TurnsTest {
     }
 
     private static void written() {
-        CartPaths paths = Check.of(CROSSING);
+        CartPaths paths = Check.of(Scenes.CROSSING);
         CHECK.same("nothing yet", paths.octet(0), -1);
         CHECK.same("bytes at 1", paths.write(10, 1), 12);
         octets(paths, "#.#\n01.\n#.#\n");
@@ -153,7 +151,7 @@ public final class TurnsTest {
     }
 
     private static void counts() {
-        CartPaths paths = Check.of(CROSSING);
+        CartPaths paths = Check.of(Scenes.CROSSING);
         paths.write(10, 0);
         paths.tell(0, 0, 3);
         int[] due = {3, 3, 2, 6, 2, 1, 12, 4};
