@@ -16,6 +16,7 @@ final class EdgeActs {
         change();
         kept();
         undone();
+        firstAskedAfterManyActs();
     }
 
     private void tell() {
@@ -175,5 +176,28 @@ final class EdgeActs {
         check.same("none", paths.undo(), -1);
         check.same("none again", paths.undo(), -1);
         check.same("none ahead of any text", new CartPaths().undo(), -1);
+    }
+
+    /** However many acts come ahead of the first question, the answers are those of the scene as it is then. */
+    private void firstAskedAfterManyActs() {
+        check.promise(9, "A CELL has another SORT: what it had.");
+        for (int acts = 0; acts <= 64; acts++) {
+            askedAfter(acts, true);
+            askedAfter(acts, false);
+        }
+    }
+
+    /** Acts that make cell 7 a wall and free by turns, so that it is, or is not, a wall at last. */
+    private void askedAfter(int acts, boolean wallAtLast) {
+        CartPaths paths = Check.of(SCENE);
+        for (int left = acts; left > 0; left--) {
+            paths.tell(1, 1, left % 2 == 1 == wallAtLast ? 1 : 0);
+        }
+        // b goes round the wall, where a comes towards it: no plan, no order
+        boolean walled = acts > 0 && wallAtLast;
+        check.same("alone after " + acts, paths.count(7), walled ? 6 : 4);
+        check.same("plan after " + acts, paths.plan(10, 0), walled ? -2 : 4);
+        check.same("best order after " + acts, paths.bestOrder(true), walled ? -1 : 4);
+        check.same("order after " + acts, paths.byTurns(0), walled ? -1 : 4);
     }
 }
