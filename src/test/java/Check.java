@@ -28,6 +28,13 @@ final class Check {
         }
     }
 
+    void same(String what, String got, String due) {
+        looked++;
+        if (!got.equals(due)) {
+            tell(what + " answered " + got + ", due is " + due);
+        }
+    }
+
     private void tell(String fault) {
         wrong++;
         System.out.println(title + ": " + sentence + fault);

@@ -6,7 +6,9 @@ import java.nio.file.Files;
 import java.nio.file.Path;
 import java.util.ArrayList;
 import java.util.List;
+import java.util.Map;
 import java.util.Set;
+import java.util.TreeMap;
 import java.util.regex.Matcher;
 import java.util.regex.Pattern;
 
@@ -24,6 +26,7 @@ public final class RulesTest {
     private static final int MOST_PARAMETERS = 7;
     private static final int MOST_CLASSES = 12;
     private static final int MOST_FIELDS = 20;
+    private static final int MOST_CALLS = 8;
 
     public static void main(String[] args) throws IOException {
         String whole = Files.readString(Path.of("src/main/java/CartPaths.java"));
@@ -33,6 +36,7 @@ public final class RulesTest {
         exceptions(code);
         staticFields();
         sizes(code);
+        depths(code);
         texts(whole);
         CHECK.close();
     }
@@ -124,6 +128,32 @@ public final class RulesTest {
         for (String body : bodies) {
             CHECK.same("a short method: " + body, body.lines().count() <= MOST_LINES ? 1 : 0, 1);
         }
+    }
+
+    /** No call goes deeper than told, none calls itself; methods of one name count as one that calls what all call. */
+    private static void depths(String code) {
+        Map<String, String> bodies = new TreeMap<>();
+        for (String indent : List.of(" {4}", " {8}")) {
+            Matcher matcher = Pattern.compile("(?ms)^" + indent + "(?:public|private)(?: static)? [\\w\\[\\]]+ (\\w+)"
+                    + "\\([^;{]*\\{\\n(.*?)^" + indent + "\\}$").matcher(code);
+            while (matcher.find()) {
+                bodies.merge(matcher.group(1), matcher.group(2), String::concat);
+            }
+        }
+        CHECK.same("methods are found by name", bodies.size() > 100 ? 1 : 0, 1);
+        for (String name : bodies.keySet()) {
+            CHECK.same("calls open at once from " + name + " on, no more than told",
+                    depth(bodies, name, MOST_CALLS) <= MOST_CALLS ? 1 : 0, 1);
+        }
+    }
+
+    /** How many calls stand open at once; one more than are left, if there are more. */
+    private static int depth(Map<String, String> bodies, String name, int left) {
+        int deepest = 0;
+        for (String called : left == 0 ? List.<String>of() : all(bodies.get(name), "\\b(\\w+)\\(")) {
+            deepest = bodies.containsKey(called) ? Math.max(deepest, depth(bodies, called, left - 1)) : deepest;
+        }
+        return deepest + 1;
     }
 
     private static void texts(String whole) {
