@@ -64,6 +64,18 @@ final class EdgeTree {
                 .node(10, 0, 2), 2);
         check.same("six at one time", Check.of("row #.#;row ...;row #.#;cart a at 0 1 to 2 1;cart b at 1 0 to 1 2;"
                 + "cart c at 2 1 to 0 1;cart d at 1 2 to 1 0;").node(10, 0, 2), 6);
+        stayingTogether();
+    }
+
+    /** By node 3 a is in 1, 2, 2, 1, where c is in 2 for ever: one clash when a comes, one when both stay. */
+    private void stayingTogether() {
+        CartPaths paths = Check.of("row ...;row ...;cart a at 1 0 to 1 0;cart b at 2 1 to 0 0;cart c at 2 0 to 2 0;");
+        node(paths, 10, 0, -1, 3, 2, -1, 0, 1);
+        node(paths, 10, 1, 0, 3, 1, 1, 1, 1);
+        node(paths, 10, 2, 0, 5, 2, 2, 1, 0);
+        node(paths, 10, 3, 1, 6, 2, 0, 2, 0);
+        node(paths, 10, 4, 1, 3, 0, 1, 2, 0);
+        plan(paths, 10, 3, 5, 2, 3, 3, 4);
     }
 
     private void nodeZero() {
